@@ -437,7 +437,7 @@ public final class HedgeRecord {
 
     public int game() {
         lyingCount = 0;
-        int picks = turns.bestFrom(told, 0, now.livingBits());
+        int picks = turns.best(told, now.livingBits());
         int pulled = 0;
         for (int party = 0; party < told.parties; party++) {
             int bill = turns.pickOf(picks, party);
@@ -1007,7 +1007,7 @@ public final class HedgeRecord {
                     }
                 } else if (one == NOT) {
                     if (top > 0) {
-                        stack[top - 1] = bit(stack[top - 1] == 0);
+                        stack[top - 1] = stack[top - 1] == 0 ? 1 : 0;
                     }
                 } else if (top > 1) {
                     top--;
@@ -1020,15 +1020,15 @@ public final class HedgeRecord {
         private static int joined(int how, int left, int right) {
             switch (how) {
                 case OR:
-                    return bit(left != 0 || right != 0);
+                    return left != 0 || right != 0 ? 1 : 0;
                 case AND:
-                    return bit(left != 0 && right != 0);
+                    return left != 0 && right != 0 ? 1 : 0;
                 case LESS:
-                    return bit(left < right);
+                    return left < right ? 1 : 0;
                 case MORE:
-                    return bit(left > right);
+                    return left > right ? 1 : 0;
                 case SAME:
-                    return bit(left == right);
+                    return left == right ? 1 : 0;
                 case PLUS:
                     return left + right;
                 case MINUS:
@@ -1040,10 +1040,6 @@ public final class HedgeRecord {
                 default:
                     return right == 0 ? 0 : left % right;
             }
-        }
-
-        private static int bit(boolean isSo) {
-            return isSo ? 1 : 0;
         }
     }
 
@@ -1359,12 +1355,16 @@ public final class HedgeRecord {
             laws = new int[TOPICS_MOST];
         }
 
+        int best(Hedge hedge, int living) {
+            return bestFrom(hedge, 0, living);
+        }
+
         int pickOf(int picks, int party) {
             return (picks >> party * PICK_BITS & PICK_MASK) - 1;
         }
 
         /** None is tried first and then the bills upward: only more joy displaces what was found before. */
-        int bestFrom(Hedge hedge, int party, int living) {
+        private int bestFrom(Hedge hedge, int party, int living) {
             if (party < 0 || party >= hedge.parties || party >= PARTIES_MOST) {
                 return 0;
             }

@@ -79,6 +79,8 @@ public final class ActsTest {
         due("13: none such", x.pull(2), -1);
         due("13: below 0", x.pull(-1), -1);
         due("13: one act", x.about(8), 1);
+        HedgeRecord y = Checks.told("plant p life 1;bill a of p at 0;");
+        due("13: the least life", y.pull(0), 1);
     }
 
     private static void trimming() {

@@ -65,6 +65,11 @@ public final class RingsTest {
         CHECKS.due("35: already", x.untell(0), false);
         due("37: untold at the same time", x.orders(0), 2);
         due("37: it counted never", x.orders(-1), 2);
+        HedgeRecord y = plain(2);
+        y.ring(0, 1, true);
+        Checks.read(y, "plant p life 5;bill a of p at 0;bill b of p at 0;");
+        due("4: rings are none", y.orders(0), 2);
+        CHECKS.due("35: gone with the hedge", y.untell(0), false);
     }
 
     private static void times() {

@@ -54,6 +54,7 @@ public final class StakesTest {
         due("28: one way", x.walk(0, 0b100000000000), 11);
         due("28: both ways, the nearer end first", x.walk(3, 0b100000000001), 14);
         due("28: the nearer end above", x.walk(9, 0b100000000001), 13);
+        due("28: both ways, far from 0", x.walk(4, 0b1000001000), 7);
         due("28: itself", x.walk(4, 1 << 4), 0);
         due("28: those between", x.walk(4, 0b11111), 4);
         due("28: none", x.walk(4, 0), 0);
@@ -91,6 +92,12 @@ public final class StakesTest {
             due("29: nothing lies", x.lies(0), -2);
         }
         due("29: by 99", x.plan(1, 99), 3);
+        // A strong one crowds out its neighbours, if it is let.
+        HedgeRecord z = Checks.told("stakes 3;plant p life 5;plant w life 20;bill a of w at 1;bill b of p at 0;bill c of p at 2;"
+            + "grow 0-(near>0)*9;");
+        due("29: without trimming", Integer.bitCount(z.living(1)), 1);
+        due("29: the first bill is trimmed", z.plan(1, 20), 2);
+        due("29: at its stake", z.lies(0), 1);
         HedgeRecord y = new HedgeRecord();
         due("29: empty", y.plan(3, 1), 0);
         due("29: three lie there", y.about(14), 3);
@@ -132,6 +139,11 @@ public final class StakesTest {
         due("30: who wants nothing", z.joy(0), 0);
         due("31: the other", z.saddest(), 1);
         due("31: without parties", new HedgeRecord().saddest(), -1);
+        HedgeRecord w = Checks.told("stakes 2;plant p life 5;topic t;bill a of p at 0 says t 2;bill b of p at 1 says t 3 amends a;"
+            + "party r;wants r t 0 by 1;");
+        due("30: with what amends", w.joy(0), -5);
+        w.pull(0);
+        due("30: nothing is said any more", w.joy(0), 0);
     }
 
     private static void games() {
@@ -166,6 +178,10 @@ public final class StakesTest {
         v.pull(1);
         due("32: a dead one is not pulled up", v.game(), 0);
         due("32: without parties", new HedgeRecord().game(), 0);
+        HedgeRecord o = Checks.told("plant p life 5;topic t;bill a of p at 0 says t 5;party r;party g;wants r t 0 by 1;wants g t 0 by 1;");
+        due("32: one is enough", o.game(), 1);
+        due("32: the first leaves it to the second", o.lies(0), -1);
+        due("32: which pulls up the first bill", o.lies(1), 0);
     }
 
     private static void lying() {

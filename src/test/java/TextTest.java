@@ -10,6 +10,7 @@ public final class TextTest {
         hedgeIsReplaced();
         faultStays();
         tokens();
+        edges();
         misplaced();
         tooMany();
         toldAlready();
@@ -106,6 +107,15 @@ public final class TextTest {
         due("4: eight stakes", x.about(1), 8);
         due("4: blanks alone", Checks.read(x, " \n "), 0);
         due("4: joy is gone", x.joy(0), 1);
+        String wants = "plant p life 5;bill a of p at 0;topic t;party q;wants q t 3 by 2;";
+        for (int i = 0; i < 4; i++) {
+            due("4: the same again", Checks.read(x, wants + "grow 3;"), 1);
+        }
+        for (int i = 0; i < 2; i++) {
+            due("4: without growth", Checks.read(x, wants), 1);
+            x.year();
+            due("4: does not grow", x.bill(0, 0), 5);
+        }
     }
 
     private static void faultStays() {
@@ -143,6 +153,9 @@ public final class TextTest {
         CHECKS.faulty("plant p life 00001;", 1, 13);
         CHECKS.fine("plant p life 0001;", 0);
         CHECKS.faulty("plant p life 5hardy;", 1, 13);
+        CHECKS.faulty("draw 5a", 1, 5);
+        CHECKS.faulty("draw 5z", 1, 5);
+        CHECKS.faulty("draw 5A", 1, 6);
         CHECKS.fine("plant p life5 hardy;", 0);
         CHECKS.fine("stakes2;\n\nplant p life 1hardy;".replace("1hardy", "1 hardy"), 0);
         CHECKS.fine("grow(life)*2-1<3;", 0);
@@ -150,6 +163,32 @@ public final class TextTest {
         CHECKS.fine("grow 9999;", 0);
         CHECKS.faulty("stakes 5 topic t$;", 2, 9);
         CHECKS.faulty("topic t; ?", 1, 9);
+    }
+
+    /** What is on the tape behind its end does not count. */
+    private static void cut(String whole, int length, int fault, int place) {
+        HedgeRecord x = new HedgeRecord();
+        Checks.tape(x, whole.getBytes());
+        due("3: cut '" + whole + "'", x.end(length), length);
+        due("4: cut '" + whole + "'", x.hedge(), -1);
+        due("5: fault of '" + whole + "' cut at " + length, x.fault(0), fault);
+        due("5: place of '" + whole + "' cut at " + length, x.fault(1), place);
+    }
+
+    private static void edges() {
+        cut("topic t        ;", 7, 2, 7);
+        cut("topic tables;", 7, 2, 7);
+        cut("stakes 12;", 8, 4, 7);
+        cut("stakes 5a", 8, 2, 8);
+        CHECKS.fine(Checks.times(" ", 1600), 0);
+        CHECKS.fine(Checks.times("\n", 1592) + "topic t;", 0);
+        CHECKS.faulty(Checks.times(" ", 1592) + "topic tt", 2, 1600);
+        CHECKS.faulty(Checks.times(" ", 1594) + "draw 5", 2, 1600);
+        CHECKS.faulty(Checks.times(" ", 1599) + "$", 1, 1599);
+        CHECKS.faulty(Checks.times("a", 1600), 1, 0);
+        CHECKS.faulty(Checks.times("1", 1600), 1, 0);
+        CHECKS.faulty(Checks.times(";", 1600), 2, 0);
+        CHECKS.faulty("grow " + Checks.times("(", 1595), 2, 12);
     }
 
     private static void misplaced() {
@@ -253,6 +292,7 @@ public final class TextTest {
         CHECKS.faulty("frost 101 of 1;", 4, 6);
         CHECKS.faulty("frost 1 of 0;", 4, 11);
         CHECKS.faulty("frost 1 of 100;", 4, 11);
+        CHECKS.fine("draw 0;", 0);
         CHECKS.fine("draw 999;", 0);
         CHECKS.faulty("draw 1000;", 4, 5);
     }

@@ -56,6 +56,13 @@ public final class YearsTest {
         grows("1+1=2", 1);
         grows("5 and 7", 1);
         grows("5 and 0", 0);
+        grows("1 and 2", 1);
+        grows("20-3*4", 8);
+        grows("10+17%5", 12);
+        grows("7%4*2", 6);
+        grows("2*7/3", 4);
+        grows("1+2<2+2", 1);
+        grows("3=1 or 4>3 and 2", 1);
         grows("0 or 7", 1);
         grows("0 or 0", 0);
         grows("not 0", 1);
