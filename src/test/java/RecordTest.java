@@ -145,6 +145,9 @@ public final class RecordTest {
         }
         due("23: all but one", z.weed(0), 11);
         due("23: the last stays", z.weed(1), 2047);
+        HedgeRecord w = Checks.told("plant p life 1;topic t;bill a of p at 0 says t 1;bill b of p at 0 says t 1;");
+        due("23: none clash", w.weed(0), 0);
+        due("23: none are pulled up", w.weed(1), 0);
         due("23: empty", new HedgeRecord().weed(0), 0);
         due("23: empty set", new HedgeRecord().weed(1), 0);
     }

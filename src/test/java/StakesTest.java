@@ -116,7 +116,14 @@ public final class StakesTest {
         int first = y.lies(0);
         int second = y.lies(1);
         due("29: none first", first, -1);
-        due("29: the middle is trimmed or dies", second, 1);
+        due("29: the middle is trimmed", second, 1);
+        // What repeals grows stronger: trimmed at once it dies of it, later only of two trims.
+        HedgeRecord z = Checks.told("stakes 3;plant p life 9;plant w life 2;bill a of p at 0;bill b of p at 0 amends a;"
+            + "bill c of p at 0 amends a;bill d of w at 2 repeals a;grow (stake=2)*2;");
+        due("29: three winters", z.plan(3, 3), 3);
+        due("29: least often ahead of the first", z.lies(0), 2);
+        due("29: then none", z.lies(1), -1);
+        due("29: then none", z.lies(2), -1);
     }
 
     private static final String GAME = "stakes 3;plant p life 5;topic s;topic t;bill a of p at 0 says s 3;bill b of p at 1 says s 5;"

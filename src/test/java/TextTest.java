@@ -157,7 +157,7 @@ public final class TextTest {
         CHECKS.faulty("draw 5z", 1, 5);
         CHECKS.faulty("draw 5A", 1, 6);
         CHECKS.fine("plant p life5 hardy;", 0);
-        CHECKS.fine("stakes2;\n\nplant p life 1hardy;".replace("1hardy", "1 hardy"), 0);
+        CHECKS.fine("stakes2;\n\nplant\np life 1 hardy;", 0);
         CHECKS.fine("grow(life)*2-1<3;", 0);
         CHECKS.faulty("grow 12345;", 1, 5);
         CHECKS.fine("grow 9999;", 0);
@@ -233,7 +233,7 @@ public final class TextTest {
             + "and not age stake near year").split(" ")) {
             CHECKS.faulty("topic " + word + ";", 2, 6);
         }
-        for (String word : "one sum term unit both line hedge name e n v year s".replace("year s", "years").split(" ")) {
+        for (String word : "one sum term unit both line hedge name e n v years stak".split(" ")) {
             CHECKS.fine("topic " + word + ";", 0);
         }
     }

@@ -96,6 +96,9 @@ public final class YearsTest {
         HedgeRecord v = Checks.told("plant p life 50;bill a of p at 2;grow (8192*8192*32)%(0-1)+3;");
         v.year();
         due("15: its rest", v.bill(0, 0), 53);
+        HedgeRecord t = Checks.told("plant p life 50;bill a of p at 2;grow not 0;");
+        t.year();
+        due("15: a not alone", t.bill(0, 0), 51);
         HedgeRecord u = Checks.told("plant p life 50;bill a of p at 2;");
         u.year();
         due("15: not told", u.bill(0, 0), 50);
