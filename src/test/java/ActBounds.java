@@ -1,5 +1,3 @@
-import java.util.ArrayList;
-import java.util.List;
 import java.util.function.IntUnaryOperator;
 
 /** The bounds of years and acts (==== 2 of the terms, its second part) and of the promises 11 to 17. */
@@ -24,6 +22,7 @@ final class ActBounds {
         near();
         yearInts();
         cutAndRest();
+        bindings();
         relations();
         sum();
         age();
@@ -182,6 +181,26 @@ final class ActBounds {
         s.due("the least by -1 is the least", grown("8192*8192*32/(0-1)<0"), 51);
         s.due("its rest is 0", grown("8192*8192*32%(0-1)=0"), 51);
         s.due("by 1", grown("7/1+7%1"), 57);
+    }
+
+    private void bindings() {
+        s.of("T1", "e = both {or both}. both = one {and one}. one = not one | sum [(< | > | =) sum]. sum = term {(+ | -) term}. "
+            + "term = unit {(* | / | %) unit}.");
+        String[] terms = {"20-3*4", "20-12/4", "20-17%5", "2+3*4", "2+12/4", "2+17%5", "3*4-2", "12/4-2", "17%5-1", "3*4+2", "12/4+2", "17%5+1",
+            "2*7/3", "7/3*2", "7%4*2", "2*7%4", "20/3%4", "20%7/2", "20-3-4", "20-3+4", "20+3-4", "100/10/2", "100%30%6", "2*3*4"};
+        int[] wanted = {8, 17, 18, 14, 5, 4, 10, 1, 1, 14, 5, 3, 4, 4, 6, 2, 2, 3, 13, 21, 19, 5, 4, 24};
+        for (int i = 0; i < terms.length; i++) {
+            s.due(terms[i], grown(terms[i]), 50 + wanted[i]);
+        }
+        String[] one = {"1+1=2", "2=1+1", "2<1+2", "1+2>2", "3-1=1*2", "2*2<5", "9>4*2", "0 or 2>1", "1<2 and 2<3", "1 or 1 and 0", "0 and 0 or 1",
+            "1 or 0 and 0", "not 1 or 1", "not 2<1", "not 1=2", "not 1-1", "not 0 and 1", "not not 1<2", "0 and 1 or 1 and 1", "not 1+0>5"};
+        for (String e : one) {
+            s.due(e, grown(e), 51);
+        }
+        String[] zero = {"(1 or 1) and 0", "not (0 or 1)", "not 1 and 0", "not (1 and 1)", "1<2 and 3<2", "not 0 and 0", "0 and (0 or 1)", "not 1<2", "(not 0)<1"};
+        for (String e : zero) {
+            s.due(e, grown(e), 50);
+        }
     }
 
     private void relations() {
@@ -396,7 +415,7 @@ final class ActBounds {
         for (int step : path) {
             s.due(step < 0 ? "undo" : "redo", step < 0 ? x.undo() : x.redo(), true);
             at += step;
-            s.alike("behind " + at + " acts", present(x), present(states[at]));
+            s.alike("behind " + at + " acts", Twins.present(x), Twins.present(states[at]));
             s.dueRow("kept", new int[] {x.about(8), x.about(9)}, at, acts - at);
         }
         s.due("none is left to be redone", x.redo(), false);
@@ -425,21 +444,6 @@ final class ActBounds {
             default:
                 x.year();
         }
-    }
-
-    private static List<String> present(HedgeRecord x) {
-        List<String> found = new ArrayList<>();
-        int[] whats = {0, 5, 6, 7};
-        for (int what : whats) {
-            found.add("about " + what + ": " + x.about(what));
-        }
-        for (int b = 0; b < 12; b++) {
-            for (int what = 0; what < 10; what++) {
-                found.add("bill " + b + " " + what + ": " + x.bill(b, what));
-            }
-        }
-        found.add("laws " + x.law(0) + " " + x.law(1));
-        return found;
     }
 
     private void tillAnotherAct() {

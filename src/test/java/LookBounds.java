@@ -90,6 +90,28 @@ final class LookBounds {
         s.due("by what is now", x.lapse(0), 3);
         x.trim(0, 2);
         s.due("by what is now", x.lapse(0), 1);
+        HedgeRecord y = s.taken("plant p life 9;topic t;bill a of p at 0 says t 5;grow 0-(year=3)*9;");
+        for (int year = 0; year <= 3; year++) {
+            s.due("by the year that is now", y.dies(0), 4 - year);
+            s.due("by the year that is now", y.lapse(0), 4 - year);
+            s.dueRow("by the year that is now", new int[] {y.will(0, 3 - year), y.will(0, 4 - year)}, 5, 0);
+            s.dueRow("by the year that is now", new int[] {y.living(3 - year), y.living(4 - year)}, 1, 0);
+            s.due("by the year that is now", y.plan(1, 1), year == 3 ? 0 : 1);
+            y.year();
+        }
+        HedgeRecord z = s.taken("plant p life 9;topic t;bill a of p at 0 says t 5;grow 0-(age=3)*9;");
+        for (int year = 0; year <= 3; year++) {
+            s.due("by the age that is now", z.dies(0), 4 - year);
+            s.dueRow("by the age that is now", new int[] {z.living(3 - year), z.living(4 - year)}, 1, 0);
+            s.due("by the age that is now", z.plan(1, 1), year == 3 ? 0 : 1);
+            z.year();
+        }
+        HedgeRecord w = s.taken("plant p life 9;topic t;bill a of p at 0 says t 5;frost 72 of 9;draw 817;");
+        s.due("by the seed that is now: 0, then 71", w.dies(0), 1);
+        HedgeRecord v = s.taken("plant p life 9;topic t;bill a of p at 0 says t 5;frost 72 of 9;draw 44;");
+        s.dueRow("by the seed that is now: 99, 634", new int[] {v.living(1), v.living(2)}, 1, 0);
+        v.year();
+        s.due("by the seed that is now: 634", v.living(1), 0);
     }
 
     private static final String FADING = "stakes 3;plant a life 1;plant b life 59;plant c life 60;plant d life 61;topic s;topic t;topic u;topic v;"
@@ -143,6 +165,9 @@ final class LookBounds {
         s.due("it stands again", x.clashes(), 2);
         x.pull(1);
         s.due("one is dead", x.clashes(), 1);
+        HedgeRecord w = s.taken("plant p life 9;topic s;topic t;bill a of p at 0 says s 1;bill b of p at 0 says t 1 amends a;bill c of p at 0 says t 2;"
+            + "bill d of p at 0 says t 3 amends c;");
+        s.due("one that amends the first, and one that does not; and one behind it", w.clashes(), 0);
         HedgeRecord y = s.taken("plant p life 9;topic t;bill a of p at 0;bill b of p at 0;bill c of p at 0 says t 0;");
         s.due("those that say nothing do not clash with one another, nor with what says 0", y.clashes(), 0);
         HedgeRecord z = s.taken("plant p life 9;topic t;bill a of p at 0 says t 9;bill b of p at 0 says t -9;");
@@ -337,6 +362,10 @@ final class LookBounds {
             x.lay(7, 0, 3, 9, 0);
         }
         s.due("beyond what can be wanted", x.joy(1), -9 * 81);
+        HedgeRecord z = s.taken("stakes 2;plant p life 9;topic t;bill a of p at 0 says t 2;bill b of p at 1 says t 3 amends a;party a;wants a t 4 by 2;");
+        s.due("with what amends it", z.joy(0), -2);
+        z.lay(1, 0, 0, -9, 0);
+        s.due("with what amends it by less than 0", z.joy(0), -16);
         HedgeRecord y = s.taken("party a;");
         s.due("without topics", y.joy(0), 0);
     }

@@ -1,3 +1,4 @@
+import java.util.List;
 import java.util.function.IntUnaryOperator;
 
 /** The bounds of rings and orders (==== 4 of the terms), of the promises 34 to 42, and the constants. */
@@ -405,34 +406,34 @@ final class RingBounds {
     private void image() {
         s.of("40", "BILLS, their LIVES, AGES, the year, the SEED are kept in a BOX 0 .. 2: the year;");
         for (int box = 0; box < 3; box++) {
-            HedgeRecord x = new HedgeRecord();
-            HedgeRecord y = new HedgeRecord();
-            int b = box;
-            Checks.read(x, "plant p life 9;topic t;bill a of p at 3 says t 1;draw 5;grow 0-1;");
-            Checks.read(y, "plant p life 9;topic t;bill a of p at 3 says t 1;draw 5;grow 0-1;");
-            s.due("year 0", x.image(b), 0);
+            HedgeRecord x = s.taken("plant p life 9;plant q life 8;topic s;topic t;bill a of q at 3 says t 1;draw 5;grow 0-1;");
+            s.due("year 0", x.image(box), 0);
             x.year();
-            y.year();
-            x.lay(0, 0, 0, 2, 0);
-            y.lay(0, 0, 0, 2, 0);
+            x.lay(6, 1, 1, 2, 0);
+            x.repeal(5, 0, 1);
+            x.lay(4, 1, 1, -2, 1);
             x.year();
-            y.year();
-            s.due("year 2", x.image(b), 2);
-            x.undo();
-            x.undo();
+            List<String> kept = Twins.present(x);
+            s.due("year 2", x.image(box), 2);
+            for (int other = 0; other < 3; other++) {
+                if (other != box) {
+                    s.due("another box", x.back(other), -1);
+                }
+            }
+            for (int i = 0; i < 4; i++) {
+                x.undo();
+            }
+            x.repeal(7, 0, 0);
+            x.lay(1, 0, 0, 3, -1);
             x.repeal(7, 0, 0);
             x.pull(0);
             x.year();
-            s.due("back", x.back(b), 2);
-            x.image(0);
-            x.image(1);
-            x.image(2);
-            y.image(0);
-            y.back(0);
-            y.image(0);
-            y.image(1);
-            y.image(2);
-            s.alike("all as it was kept, in box " + b, Twins.everything(x), Twins.everything(y));
+            x.image((box + 1) % 3);
+            x.lay(1, 0, 0, 3, -1);
+            x.year();
+            x.image((box + 2) % 3);
+            s.due("back", x.back(box), 2);
+            s.alike("all as it was kept, in box " + box, Twins.present(x), kept);
         }
         HedgeRecord z = plain(8);
         z.image(2);

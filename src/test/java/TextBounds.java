@@ -292,6 +292,21 @@ final class TextBounds {
         x.end(6);
         x.hedge();
         s.due("what was on the tape is none, fault", x.fault(0), 2);
+        behindTheEnd("draw 55;", 6);
+        behindTheEnd("topic tt;", 7);
+        behindTheEnd("draw 5 ;", 6);
+        s.refused(2, times(" ", 1594) + "draw 5^");
+        s.refused(2, times(" ", 1592) + "topic tt^");
+    }
+
+    /** Cut off behind so many bytes, the text ends there, whatever was behind it. */
+    private void behindTheEnd(String text, int length) {
+        HedgeRecord x = new HedgeRecord();
+        Checks.tape(x, text.getBytes());
+        x.end(length);
+        s.due("hedge() of " + text + " cut at " + length, x.hedge(), -1);
+        s.due("fault(0) of " + text + " cut at " + length, x.fault(0), 2);
+        s.due("fault(1) of " + text + " cut at " + length, x.fault(1), length);
     }
 
     private void reserved() {
@@ -331,9 +346,12 @@ final class TextBounds {
         }
     }
 
+    /** The first text is told more than once, so that nothing of it may be left anywhere. */
     private HedgeRecord again(String first, String second) {
         HedgeRecord x = s.taken(first);
-        Checks.read(x, second);
+        Checks.read(x, first);
+        Checks.read(x, first + "?");
+        s.due("hedge() of " + second + " behind another text", Checks.read(x, second) >= 0, true);
         return x;
     }
 
@@ -497,6 +515,9 @@ final class TextBounds {
         s.due("not told, behind another text: draw", x.about(6), 0);
         x.year();
         s.due("not told, behind another text: grow and frost", x.bill(0, 0), 50);
+        HedgeRecord y = again("plant p life 9 hardy;plant q life 9 hardy;", "plant p life 9;bill a of p at 0;frost 100 of 3;");
+        y.year();
+        s.due("hardy not told, behind another text", y.bill(0, 0), 6);
     }
 
     private void units() {
@@ -809,7 +830,7 @@ final class TextBounds {
 
     private void hedgeFault() {
         s.of("4", "NONE: a FAULT (all stays).");
-        for (String text : new String[] {"?", "stakes 2;plant z life 1;topic z;party z;bill z of z at 0 says z 1;grow 9;frost 100 of 99;draw 1;?",
+        for (String text : new String[] {"?", "stakes 2;plant z life 1 hardy;topic z;party z;wants z z 1 by 1;bill z of z at 0 says z 1;grow 9;frost 100 of 99;draw 1;?",
             "stakes 13", "topic t;topic t"}) {
             HedgeRecord x = new HedgeRecord();
             HedgeRecord y = new HedgeRecord();
@@ -825,9 +846,11 @@ final class TextBounds {
             Twins.rich(z);
             z.end(0);
             Checks.read(z, text);
-            z.hedge();
             HedgeRecord w = new HedgeRecord();
             w.later(5);
+            String next = "plant p life 7;topic t;party g;bill a of p at 7 says t 2;";
+            Checks.read(z, next);
+            Checks.read(w, next);
             s.alike("and the next text is read as by a new object", Twins.everything(z), Twins.everything(w));
         }
     }

@@ -115,10 +115,25 @@ final class Twins {
         return found;
     }
 
+    /** What acts change, and images keep. */
+    static List<String> present(HedgeRecord x) {
+        List<String> found = new ArrayList<>();
+        int[] whats = {0, 5, 6, 7};
+        for (int what : whats) {
+            found.add("about " + what + ": " + x.about(what));
+        }
+        addBills(found, "", x);
+        return found;
+    }
+
     private static void present(List<String> found, String when, HedgeRecord x) {
         for (int what = -1; what <= 15; what++) {
             found.add(when + ": about " + what + ": " + x.about(what));
         }
+        addBills(found, when, x);
+    }
+
+    private static void addBills(List<String> found, String when, HedgeRecord x) {
         for (int b = 0; b <= BILLS; b++) {
             for (int what = 0; what < 10; what++) {
                 found.add(when + ": bill " + b + " " + what + ": " + x.bill(b, what));
