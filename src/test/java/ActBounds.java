@@ -1,5 +1,3 @@
-import java.util.function.IntUnaryOperator;
-
 /** The bounds of years and acts (==== 2 of the terms, its second part) and of the promises 11 to 17. */
 final class ActBounds {
     private static final String TEXT = "stakes 4;plant p life 5;plant q life 9 hardy;topic s;topic t;bill a of p at 1 says s 4;"
@@ -51,14 +49,6 @@ final class ActBounds {
         actsAreActs();
     }
 
-    private static int[] row(int n, IntUnaryOperator of) {
-        int[] found = new int[n];
-        for (int i = 0; i < n; i++) {
-            found[i] = of.applyAsInt(i);
-        }
-        return found;
-    }
-
     /** Life of one bill at stake 3, of life 50 at first, behind one year of this growth. */
     private int grown(String formula) {
         return grown(50, formula);
@@ -75,8 +65,8 @@ final class ActBounds {
         HedgeRecord x = s.taken("plant p life 1;bill a of p at 0;bill b of p at 0;bill c of p at 0;grow 1;");
         x.pull(1);
         x.year();
-        s.dueRow("lives", row(3, b -> x.bill(b, 0)), 2, 0, 2);
-        s.dueRow("ages", row(3, b -> x.bill(b, 1)), 1, 0, 1);
+        s.dueRow("lives", Checks.row(3, b -> x.bill(b, 0)), 2, 0, 2);
+        s.dueRow("ages", Checks.row(3, b -> x.bill(b, 1)), 1, 0, 1);
         HedgeRecord y = new HedgeRecord();
         Checks.read(y, "plant p life 1;topic t;grow 2;");
         for (int i = 0; i < 12; i++) {
@@ -104,19 +94,21 @@ final class ActBounds {
         s.due("stake", grown("stake"), 53);
         HedgeRecord x = s.taken("plant p life 10;bill a of p at 0;bill b of p at 7;grow life+age+stake;");
         x.year();
-        s.dueRow("in the first year", row(2, b -> x.bill(b, 0)), 20, 27);
+        s.dueRow("in the first year", Checks.row(2, b -> x.bill(b, 0)), 20, 27);
         x.year();
-        s.dueRow("in the second", row(2, b -> x.bill(b, 0)), 41, 62);
+        s.dueRow("in the second", Checks.row(2, b -> x.bill(b, 0)), 41, 62);
     }
 
     private void near() {
         s.of("T2", "near (how many other BILLS LIVE at its STAKE, and at those beside it, as it is then)");
-        HedgeRecord x = s.taken("stakes 12;plant p life 9;bill a of p at 0;bill b of p at 11;bill c of p at 2;bill d of p at 9;grow near;");
+        HedgeRecord x = s.taken("stakes 12;plant p life 9;bill a of p at 0;bill b of p at 11;bill c of p at 2;"
+            + "bill d of p at 9;grow near;");
         x.year();
-        s.dueRow("two off is not beside, and the last not beside the first", row(4, b -> x.bill(b, 0)), 9, 9, 9, 9);
-        HedgeRecord y = s.taken("stakes 12;plant p life 9;bill a of p at 0;bill b of p at 1;bill c of p at 10;bill d of p at 11;bill e of p at 11;grow near;");
+        s.dueRow("two off is not beside, and the last not beside the first", Checks.row(4, b -> x.bill(b, 0)), 9, 9, 9, 9);
+        HedgeRecord y = s.taken("stakes 12;plant p life 9;bill a of p at 0;bill b of p at 1;bill c of p at 10;"
+            + "bill d of p at 11;bill e of p at 11;grow near;");
         y.year();
-        s.dueRow("at the ends", row(5, b -> y.bill(b, 0)), 10, 10, 11, 11, 11);
+        s.dueRow("at the ends", Checks.row(5, b -> y.bill(b, 0)), 10, 10, 11, 11, 11);
         HedgeRecord z = s.taken("stakes 2;plant p life 1;topic t;grow near;");
         for (int i = 0; i < 12; i++) {
             z.lay(i % 2, 0, 0, 0, -1);
@@ -126,15 +118,16 @@ final class ActBounds {
         s.due("eleven others", z.bill(11, 0), 12);
         HedgeRecord w = s.taken("stakes 2;plant p life 9;bill a of p at 0;bill b of p at 1;bill c of p at 0;grow 0-near*9;");
         s.due("one that died earlier in the year is none", w.year(), 2);
-        s.dueRow("lives", row(3, b -> w.bill(b, 0)), 0, 0, 9);
-        HedgeRecord v = s.taken("stakes 2;plant p life 9;plant w life 1;bill a of p at 0;bill b of w at 1;grow near-1-(stake=1);");
+        s.dueRow("lives", Checks.row(3, b -> w.bill(b, 0)), 0, 0, 9);
+        HedgeRecord v = s.taken("stakes 2;plant p life 9;plant w life 1;bill a of p at 0;bill b of w at 1;"
+            + "grow near-1-(stake=1);");
         v.year();
-        s.dueRow("one that dies later in the year is one", row(2, b -> v.bill(b, 0)), 9, 0);
+        s.dueRow("one that dies later in the year is one", Checks.row(2, b -> v.bill(b, 0)), 9, 0);
         v.year();
         s.due("and none in the next", v.bill(0, 0), 8);
         HedgeRecord u = s.taken("stakes 2;plant p life 9;bill a of p at 0;bill b of p at 1 repeals a;grow near;");
         u.year();
-        s.dueRow("repealed ones live", row(2, b -> u.bill(b, 0)), 10, 10);
+        s.dueRow("repealed ones live", Checks.row(2, b -> u.bill(b, 0)), 10, 10);
     }
 
     private void yearInts() {
@@ -186,18 +179,21 @@ final class ActBounds {
     private void bindings() {
         s.of("T1", "e = both {or both}. both = one {and one}. one = not one | sum [(< | > | =) sum]. sum = term {(+ | -) term}. "
             + "term = unit {(* | / | %) unit}.");
-        String[] terms = {"20-3*4", "20-12/4", "20-17%5", "2+3*4", "2+12/4", "2+17%5", "3*4-2", "12/4-2", "17%5-1", "3*4+2", "12/4+2", "17%5+1",
-            "2*7/3", "7/3*2", "7%4*2", "2*7%4", "20/3%4", "20%7/2", "20-3-4", "20-3+4", "20+3-4", "100/10/2", "100%30%6", "2*3*4"};
+        String[] terms = {"20-3*4", "20-12/4", "20-17%5", "2+3*4", "2+12/4", "2+17%5", "3*4-2", "12/4-2", "17%5-1", "3*4+2",
+            "12/4+2", "17%5+1", "2*7/3", "7/3*2", "7%4*2", "2*7%4", "20/3%4", "20%7/2", "20-3-4", "20-3+4", "20+3-4",
+            "100/10/2", "100%30%6", "2*3*4"};
         int[] wanted = {8, 17, 18, 14, 5, 4, 10, 1, 1, 14, 5, 3, 4, 4, 6, 2, 2, 3, 13, 21, 19, 5, 4, 24};
         for (int i = 0; i < terms.length; i++) {
             s.due(terms[i], grown(terms[i]), 50 + wanted[i]);
         }
-        String[] one = {"1+1=2", "2=1+1", "2<1+2", "1+2>2", "3-1=1*2", "2*2<5", "9>4*2", "0 or 2>1", "1<2 and 2<3", "1 or 1 and 0", "0 and 0 or 1",
-            "1 or 0 and 0", "not 1 or 1", "not 2<1", "not 1=2", "not 1-1", "not 0 and 1", "not not 1<2", "0 and 1 or 1 and 1", "not 1+0>5"};
+        String[] one = {"1+1=2", "2=1+1", "2<1+2", "1+2>2", "3-1=1*2", "2*2<5", "9>4*2", "0 or 2>1", "1<2 and 2<3",
+            "1 or 1 and 0", "0 and 0 or 1", "1 or 0 and 0", "not 1 or 1", "not 2<1", "not 1=2", "not 1-1", "not 0 and 1",
+            "not not 1<2", "0 and 1 or 1 and 1", "not 1+0>5"};
         for (String e : one) {
             s.due(e, grown(e), 51);
         }
-        String[] zero = {"(1 or 1) and 0", "not (0 or 1)", "not 1 and 0", "not (1 and 1)", "1<2 and 3<2", "not 0 and 0", "0 and (0 or 1)", "not 1<2", "(not 0)<1"};
+        String[] zero = {"(1 or 1) and 0", "not (0 or 1)", "not 1 and 0", "not (1 and 1)", "1<2 and 3<2", "not 0 and 0",
+            "0 and (0 or 1)", "not 1<2", "(not 0)<1"};
         for (String e : zero) {
             s.due(e, grown(e), 50);
         }
@@ -205,13 +201,15 @@ final class ActBounds {
 
     private void relations() {
         s.of("T2", "relations, and, or, not are 1 or 0, of what is not 0);");
-        String[] one = {"1<2", "2>1", "2=2", "0-1<0", "1 and 1", "2 and 9999", "(0-1) and (0-2)", "1 or 0", "0 or 7", "0-1 or 0", "5 or 5", "not 0",
-            "not 1<1", "not not 7", "1 and 1 and 1", "0 or 0 or 3", "1 or 0 and 0", "not 0 or 0", "(3>2)=1", "8192*8192*32 and 1"};
+        String[] one = {"1<2", "2>1", "2=2", "0-1<0", "1 and 1", "2 and 9999", "(0-1) and (0-2)", "1 or 0", "0 or 7",
+            "0-1 or 0", "5 or 5", "not 0", "not 1<1", "not not 7", "1 and 1 and 1", "0 or 0 or 3", "1 or 0 and 0",
+            "not 0 or 0", "(3>2)=1", "8192*8192*32 and 1"};
         for (String e : one) {
             s.due(e + " is 1", grown(e), 51);
         }
-        String[] zero = {"2<2", "3<2", "2>2", "2>3", "2=3", "0-2=2", "0 and 1", "1 and 0", "0 and 0", "0 or 0", "not 1", "not 7", "not (0-1)",
-            "not not 0", "1 and 1 and 0", "0 and 0 or 0", "not 0 and 0", "not 1 or 0", "not 8192*8192*32"};
+        String[] zero = {"2<2", "3<2", "2>2", "2>3", "2=3", "0-2=2", "0 and 1", "1 and 0", "0 and 0", "0 or 0", "not 1",
+            "not 7", "not (0-1)", "not not 0", "1 and 1 and 0", "0 and 0 or 0", "not 0 and 0", "not 1 or 0",
+            "not 8192*8192*32"};
         for (String e : zero) {
             s.due(e + " is 0", grown(e), 50);
         }
@@ -244,11 +242,11 @@ final class ActBounds {
         s.of("T2", "its AGE is 1 more.");
         HedgeRecord x = s.taken("plant p life 2;bill a of p at 3;bill b of p at 0;grow 0-(stake=3);");
         x.year();
-        s.dueRow("in the first year", row(2, b -> x.bill(b, 1)), 1, 1);
+        s.dueRow("in the first year", Checks.row(2, b -> x.bill(b, 1)), 1, 1);
         x.year();
-        s.dueRow("in the year of its death, too", row(2, b -> x.bill(b, 1)), 2, 2);
+        s.dueRow("in the year of its death, too", Checks.row(2, b -> x.bill(b, 1)), 2, 2);
         x.year();
-        s.dueRow("but in none behind it", row(2, b -> x.bill(b, 1)), 2, 3);
+        s.dueRow("but in none behind it", Checks.row(2, b -> x.bill(b, 1)), 2, 3);
         HedgeRecord y = s.taken("plant p life 2;bill a of p at 3;frost 100 of 2;");
         y.year();
         s.due("dead of frost", y.bill(0, 1), 1);
@@ -307,21 +305,23 @@ final class ActBounds {
 
     private void hardy() {
         s.of("T2", "each BILL whose PLANT is not hardy loses so much LIFE as is told (0 at least).");
-        HedgeRecord x = s.taken("plant a life 4;plant b life 3;plant c life 2;plant d life 2 hardy;bill a of a at 0;bill b of b at 0;bill c of c at 0;"
+        HedgeRecord x = s.taken("plant a life 4;plant b life 3;plant c life 2;plant d life 2 hardy;bill a of a at 0;"
+            + "bill b of b at 0;bill c of c at 0;"
             + "bill d of d at 0;frost 100 of 3;");
         s.due("two died", x.year(), 2);
-        s.dueRow("more, as much, less, hardy", row(4, b -> x.bill(b, 0)), 1, 0, 0, 2);
+        s.dueRow("more, as much, less, hardy", Checks.row(4, b -> x.bill(b, 0)), 1, 0, 0, 2);
         s.due("one more", x.year(), 1);
-        s.dueRow("0 at least", row(4, b -> x.bill(b, 0)), 0, 0, 0, 2);
+        s.dueRow("0 at least", Checks.row(4, b -> x.bill(b, 0)), 0, 0, 0, 2);
         HedgeRecord y = s.taken("plant p life 1;plant q life 99;bill a of p at 0;bill b of q at 1;grow 2;frost 100 of 2;");
         s.due("growth is ahead of it", y.year(), 0);
-        s.dueRow("what is above 99 is lost ahead of it", row(2, b -> y.bill(b, 0)), 1, 97);
+        s.dueRow("what is above 99 is lost ahead of it", Checks.row(2, b -> y.bill(b, 0)), 1, 97);
         HedgeRecord z = s.taken("plant p life 99 hardy;plant q life 99;bill a of q at 0;bill b of p at 1;frost 100 of 99;");
         s.due("of 99", z.year(), 1);
-        s.dueRow("of 99", row(2, b -> z.bill(b, 0)), 0, 99);
+        s.dueRow("of 99", Checks.row(2, b -> z.bill(b, 0)), 0, 99);
         HedgeRecord w = s.taken("plant p life 3;bill a of p at 0;bill b of p at 0;grow 0-near;frost 100 of 2;");
         s.due("frost comes when all have grown", w.year(), 2);
-        HedgeRecord v = s.taken("plant a life 9 hardy;plant b life 9;plant c life 9 hardy;plant d life 9;topic t;frost 100 of 9;");
+        HedgeRecord v = s.taken("plant a life 9 hardy;plant b life 9;plant c life 9 hardy;plant d life 9;topic t;"
+            + "frost 100 of 9;");
         for (int i = 0; i < 12; i++) {
             v.lay(0, i % 4, 0, 0, -1);
         }
@@ -341,7 +341,8 @@ final class ActBounds {
     }
 
     private void laid() {
-        s.of("T2", "ACTS: a BILL is laid (12 in all; of a PLANT, at a STAKE, says something of a TOPIC, amends one or none; or it repeals one, "
+        s.of("T2", "ACTS: a BILL is laid (12 in all; of a PLANT, at a STAKE, says something of a TOPIC, amends one or none;"
+            + " or it repeals one, "
             + "and says nothing);");
         HedgeRecord x = s.taken(TEXT);
         for (int i = 2; i < 12; i++) {
@@ -351,9 +352,10 @@ final class ActBounds {
         s.due("a thirteenth", x.repeal(3, 1, 0), -1);
         s.due("12 in all", x.about(0), 12);
         s.due("acts", x.about(8), 10);
-        s.dueRow("laid", row(10, w -> x.bill(2, w)), 9, 0, 3, 1, 1, -4, 1, -1, 0, 1);
-        s.dueRow("repeals", row(10, w -> x.bill(11, w)), 5, 0, 0, 0, -1, 0, -1, 10, 1, 0);
-        HedgeRecord y = s.taken("stakes 2;plant p life 1;topic t;bill a of p at 0;bill b of p at 0;bill c of p at 0;bill d of p at 0;bill e of p at 0;"
+        s.dueRow("laid", Checks.row(10, w -> x.bill(2, w)), 9, 0, 3, 1, 1, -4, 1, -1, 0, 1);
+        s.dueRow("repeals", Checks.row(10, w -> x.bill(11, w)), 5, 0, 0, 0, -1, 0, -1, 10, 1, 0);
+        HedgeRecord y = s.taken("stakes 2;plant p life 1;topic t;bill a of p at 0;bill b of p at 0;bill c of p at 0;"
+            + "bill d of p at 0;bill e of p at 0;"
             + "bill f of p at 0;bill g of p at 0;bill h of p at 0;");
         for (int i = 8; i < 12; i++) {
             s.due("behind eight that are told", y.lay(1, 0, 0, 1, -1), i);
@@ -370,27 +372,28 @@ final class ActBounds {
         s.of("T2", "one is pulled up (its LIFE is 0);");
         HedgeRecord x = s.taken("plant p life 99;plant q life 1;bill a of p at 0;bill b of q at 0;");
         x.pull(0);
-        s.dueRow("the most", row(2, b -> x.bill(b, 0)), 0, 1);
+        s.dueRow("the most", Checks.row(2, b -> x.bill(b, 0)), 0, 1);
         x.pull(1);
-        s.dueRow("the least", row(2, b -> x.bill(b, 0)), 0, 0);
+        s.dueRow("the least", Checks.row(2, b -> x.bill(b, 0)), 0, 0);
         s.due("they are still bills", x.about(0), 2);
     }
 
     private void trimmed() {
         s.of("T2", "a STAKE is trimmed (all LIFE there is 1 .. 99 less, 0 at least); a YEAR.");
-        HedgeRecord x = s.taken("stakes 3;plant p life 4;plant q life 5 hardy;plant r life 99;bill a of p at 1;bill b of q at 1;bill c of r at 1;"
+        HedgeRecord x = s.taken("stakes 3;plant p life 4;plant q life 5 hardy;plant r life 99;bill a of p at 1;"
+            + "bill b of q at 1;bill c of r at 1;"
             + "bill d of p at 0;bill e of p at 2;");
         x.trim(1, 4);
-        s.dueRow("by 4", row(5, b -> x.bill(b, 0)), 0, 1, 95, 4, 4);
+        s.dueRow("by 4", Checks.row(5, b -> x.bill(b, 0)), 0, 1, 95, 4, 4);
         x.trim(1, 1);
-        s.dueRow("by 1", row(5, b -> x.bill(b, 0)), 0, 0, 94, 4, 4);
+        s.dueRow("by 1", Checks.row(5, b -> x.bill(b, 0)), 0, 0, 94, 4, 4);
         x.trim(1, 93);
-        s.dueRow("by 93", row(5, b -> x.bill(b, 0)), 0, 0, 1, 4, 4);
+        s.dueRow("by 93", Checks.row(5, b -> x.bill(b, 0)), 0, 0, 1, 4, 4);
         x.trim(1, 99);
-        s.dueRow("by 99", row(5, b -> x.bill(b, 0)), 0, 0, 0, 4, 4);
+        s.dueRow("by 99", Checks.row(5, b -> x.bill(b, 0)), 0, 0, 0, 4, 4);
         x.trim(0, 99);
         x.trim(2, 3);
-        s.dueRow("the first and the last stake", row(5, b -> x.bill(b, 0)), 0, 0, 0, 0, 1);
+        s.dueRow("the first and the last stake", Checks.row(5, b -> x.bill(b, 0)), 0, 0, 0, 0, 1);
         HedgeRecord y = s.taken("plant r life 99;bill a of r at 1;");
         y.trim(1, 99);
         s.due("99 by 99", y.bill(0, 0), 0);
@@ -544,11 +547,12 @@ final class ActBounds {
 
     private void lay() {
         s.of("11", "A BILL is laid (amends NONE: none): its number;");
-        HedgeRecord x = s.taken("stakes 12;plant o life 1;plant p life 2;plant q life 3;plant r life 4;topic s;topic t;topic u;topic v;");
+        HedgeRecord x = s.taken("stakes 12;plant o life 1;plant p life 2;plant q life 3;plant r life 4;topic s;topic t;"
+            + "topic u;topic v;");
         s.due("the least of all", x.lay(0, 0, 0, -9, -1), 0);
         s.due("the greatest of all, amends the first", x.lay(11, 3, 3, 9, 0), 1);
-        s.dueRow("the first", row(10, w -> x.bill(0, w)), 1, 0, 0, 0, 0, -9, -1, -1, 1, 0);
-        s.dueRow("the second", row(10, w -> x.bill(1, w)), 4, 0, 11, 3, 3, 9, 0, -1, 1, 0);
+        s.dueRow("the first", Checks.row(10, w -> x.bill(0, w)), 1, 0, 0, 0, 0, -9, -1, -1, 1, 0);
+        s.dueRow("the second", Checks.row(10, w -> x.bill(1, w)), 4, 0, 11, 3, 3, 9, 0, -1, 1, 0);
         for (int i = 2; i < 12; i++) {
             s.due("amends the one ahead", x.lay(i, i % 4, i % 4, 0, i - 1), i);
         }
@@ -564,14 +568,15 @@ final class ActBounds {
     private void layRefused() {
         s.of("11", "NONE, doing nothing, if there are 12, or one can't be. (An ACT.)");
         full.idle("a thirteenth", x -> x.lay(0, 0, 0, 1, -1), -1);
-        int[][] wrong = {{-1, 0, 0, 0, -1}, {5, 0, 0, 0, -1}, {12, 0, 0, 0, -1}, {0, -1, 0, 0, -1}, {0, 2, 0, 0, -1}, {0, 4, 0, 0, -1},
-            {0, 0, -1, 0, -1}, {0, 0, 2, 0, -1}, {0, 0, 4, 0, -1}, {0, 0, 0, -10, -1}, {0, 0, 0, 10, -1}, {0, 0, 0, 0, -2}, {0, 0, 0, 0, 5},
-            {0, 0, 0, 0, 12}, {Integer.MIN_VALUE, 0, 0, 0, -1}, {Integer.MAX_VALUE, 0, 0, 0, -1}, {0, Integer.MIN_VALUE, 0, 0, -1},
-            {0, Integer.MAX_VALUE, 0, 0, -1}, {0, 0, Integer.MIN_VALUE, 0, -1}, {0, 0, Integer.MAX_VALUE, 0, -1},
-            {0, 0, 0, Integer.MIN_VALUE, -1}, {0, 0, 0, Integer.MAX_VALUE, -1}, {0, 0, 0, 0, Integer.MIN_VALUE},
-            {0, 0, 0, 0, Integer.MAX_VALUE}};
+        int[][] wrong = {{-1, 0, 0, 0, -1}, {5, 0, 0, 0, -1}, {12, 0, 0, 0, -1}, {0, -1, 0, 0, -1}, {0, 2, 0, 0, -1},
+            {0, 4, 0, 0, -1}, {0, 0, -1, 0, -1}, {0, 0, 2, 0, -1}, {0, 0, 4, 0, -1}, {0, 0, 0, -10, -1}, {0, 0, 0, 10, -1},
+            {0, 0, 0, 0, -2}, {0, 0, 0, 0, 5}, {0, 0, 0, 0, 12}, {Integer.MIN_VALUE, 0, 0, 0, -1},
+            {Integer.MAX_VALUE, 0, 0, 0, -1}, {0, Integer.MIN_VALUE, 0, 0, -1}, {0, Integer.MAX_VALUE, 0, 0, -1},
+            {0, 0, Integer.MIN_VALUE, 0, -1}, {0, 0, Integer.MAX_VALUE, 0, -1}, {0, 0, 0, Integer.MIN_VALUE, -1},
+            {0, 0, 0, Integer.MAX_VALUE, -1}, {0, 0, 0, 0, Integer.MIN_VALUE}, {0, 0, 0, 0, Integer.MAX_VALUE}};
         for (int[] w : wrong) {
-            rich.idle("lay " + w[0] + " " + w[1] + " " + w[2] + " " + w[3] + " " + w[4], x -> x.lay(w[0], w[1], w[2], w[3], w[4]), -1);
+            rich.idle("lay " + w[0] + " " + w[1] + " " + w[2] + " " + w[3] + " " + w[4],
+                x -> x.lay(w[0], w[1], w[2], w[3], w[4]), -1);
         }
         HedgeRecord x = new HedgeRecord();
         Twins.rich(x);
@@ -586,7 +591,7 @@ final class ActBounds {
         s.of("12", "A BILL is laid that repeals one: its number;");
         HedgeRecord x = s.taken("stakes 12;plant o life 1;plant p life 2;plant q life 3;plant r life 4;bill a of o at 0;");
         s.due("the last stake and plant", x.repeal(11, 3, 0), 1);
-        s.dueRow("it", row(10, w -> x.bill(1, w)), 4, 0, 11, 3, -1, 0, -1, 0, 1, 0);
+        s.dueRow("it", Checks.row(10, w -> x.bill(1, w)), 4, 0, 11, 3, -1, 0, -1, 0, 1, 0);
         for (int i = 2; i < 12; i++) {
             s.due("repeals the one ahead", x.repeal(0, 0, i - 1), i);
         }
@@ -599,9 +604,9 @@ final class ActBounds {
     private void repealRefused() {
         s.of("12", "NONE, doing nothing, if there are 12, or one can't be. (An ACT.)");
         full.idle("a thirteenth", x -> x.repeal(0, 0, 0), -1);
-        int[][] wrong = {{-1, 0, 0}, {5, 0, 0}, {12, 0, 0}, {0, -1, 0}, {0, 2, 0}, {0, 4, 0}, {0, 0, -1}, {0, 0, 5}, {0, 0, 12},
-            {Integer.MIN_VALUE, 0, 0}, {Integer.MAX_VALUE, 0, 0}, {0, Integer.MIN_VALUE, 0}, {0, Integer.MAX_VALUE, 0},
-            {0, 0, Integer.MIN_VALUE}, {0, 0, Integer.MAX_VALUE}};
+        int[][] wrong = {{-1, 0, 0}, {5, 0, 0}, {12, 0, 0}, {0, -1, 0}, {0, 2, 0}, {0, 4, 0}, {0, 0, -1}, {0, 0, 5},
+            {0, 0, 12}, {Integer.MIN_VALUE, 0, 0}, {Integer.MAX_VALUE, 0, 0}, {0, Integer.MIN_VALUE, 0},
+            {0, Integer.MAX_VALUE, 0}, {0, 0, Integer.MIN_VALUE}, {0, 0, Integer.MAX_VALUE}};
         for (int[] w : wrong) {
             rich.idle("repeal " + w[0] + " " + w[1] + " " + w[2], x -> x.repeal(w[0], w[1], w[2]), -1);
         }
@@ -651,7 +656,8 @@ final class ActBounds {
 
     private void trim() {
         s.of("14", "A STAKE is trimmed by so much (1 .. 99): how many BILLS died of it;");
-        HedgeRecord x = s.taken("stakes 12;plant p life 1;plant q life 99;topic t;bill a of p at 0;bill b of q at 0;bill c of p at 11;");
+        HedgeRecord x = s.taken("stakes 12;plant p life 1;plant q life 99;topic t;bill a of p at 0;bill b of q at 0;"
+            + "bill c of p at 11;");
         s.due("by 1: one", x.trim(0, 1), 1);
         s.due("by 1: none", x.trim(0, 1), 0);
         s.due("by 96: none", x.trim(0, 96), 0);
@@ -694,7 +700,8 @@ final class ActBounds {
     private void year() {
         s.of("15", "A YEAR: how many BILLS died in it;");
         s.due("of none", new HedgeRecord().year(), 0);
-        HedgeRecord x = s.taken("plant p life 1;plant q life 2;plant r life 3 hardy;topic t;bill a of p at 0;bill b of q at 1;bill c of r at 2;"
+        HedgeRecord x = s.taken("plant p life 1;plant q life 2;plant r life 3 hardy;topic t;bill a of p at 0;bill b of q at 1;"
+            + "bill c of r at 2;"
             + "grow 0-1;frost 100 of 1;");
         s.due("of growth and of frost", x.year(), 2);
         s.due("those that are dead do not die again", x.year(), 0);
@@ -722,8 +729,8 @@ final class ActBounds {
         for (int i = 0; i < 3; i++) {
             s.due("one more", x.year(), -1);
         }
-        s.dueRow("nothing was done: year, seed, age, acts", new int[] {x.about(5), x.about(6), x.bill(0, 1), x.about(8), x.about(9)},
-            999, seed, 999, 40, 0);
+        s.dueRow("nothing was done: year, seed, age, acts",
+            new int[] {x.about(5), x.about(6), x.bill(0, 1), x.about(8), x.about(9)}, 999, seed, 999, 40, 0);
         x.undo();
         s.due("one that was undone is none", x.year(), 0);
         x.undo();
@@ -793,15 +800,16 @@ final class ActBounds {
         for (int kind = 0; kind < promises.length; kind++) {
             s.of(promises[kind], "(An ACT.)");
             HedgeRecord x = s.taken(TEXT);
-            int[] before = row(15, x::about);
-            int answer = kind == 0 ? x.lay(0, 0, 0, 3, -1) : kind == 1 ? x.repeal(0, 0, 0) : kind == 2 ? x.pull(0) : kind == 3 ? x.trim(1, 1) : x.year();
+            int[] before = Checks.row(15, x::about);
+            int answer = kind == 0 ? x.lay(0, 0, 0, 3, -1) : kind == 1 ? x.repeal(0, 0, 0)
+                : kind == 2 ? x.pull(0) : kind == 3 ? x.trim(1, 1) : x.year();
             s.due("it is done", answer >= 0, true);
             s.due("one can be undone", x.about(8), 1);
             s.due("undo", x.undo(), true);
             s.due("redone", x.about(9), 1);
             s.due("redo", x.redo(), true);
             x.undo();
-            int[] after = row(15, x::about);
+            int[] after = Checks.row(15, x::about);
             after[9] = 0;
             s.dueRow("all as before", after, before);
         }

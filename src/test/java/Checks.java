@@ -1,5 +1,6 @@
 import java.nio.charset.StandardCharsets;
 import java.util.Arrays;
+import java.util.function.IntUnaryOperator;
 
 /** What all tests share: counting answers that are not due, and telling a text to an object. */
 final class Checks {
@@ -65,6 +66,15 @@ final class Checks {
 
     private static int word(byte[] b, int i) {
         return (b[i] & 255) << 24 | (b[i + 1] & 255) << 16 | (b[i + 2] & 255) << 8 | b[i + 3] & 255;
+    }
+
+    /** The answers to 0, 1 and so on. */
+    static int[] row(int n, IntUnaryOperator of) {
+        int[] found = new int[n];
+        for (int i = 0; i < n; i++) {
+            found[i] = of.applyAsInt(i);
+        }
+        return found;
     }
 
     static String times(String part, int n) {

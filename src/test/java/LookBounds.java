@@ -1,5 +1,3 @@
-import java.util.function.IntUnaryOperator;
-
 /** The bounds of what is looked up and tried out (==== 3 of the terms) and of the promises 18 to 33. */
 final class LookBounds {
     private static final int[] FAR = {Integer.MIN_VALUE, Integer.MAX_VALUE};
@@ -50,16 +48,8 @@ final class LookBounds {
         lies();
     }
 
-    private static int[] row(int n, IntUnaryOperator of) {
-        int[] found = new int[n];
-        for (int i = 0; i < n; i++) {
-            found[i] = of.applyAsInt(i);
-        }
-        return found;
-    }
-
     private static int[] lying(HedgeRecord x) {
-        return row(x.about(14), x::lies);
+        return Checks.row(x.about(14), x::lies);
     }
 
     private void nothingIsDone() {
@@ -114,20 +104,22 @@ final class LookBounds {
         s.due("by the seed that is now: 634", v.living(1), 0);
     }
 
-    private static final String FADING = "stakes 3;plant a life 1;plant b life 59;plant c life 60;plant d life 61;topic s;topic t;topic u;topic v;"
+    private static final String FADING = "stakes 3;plant a life 1;plant b life 59;plant c life 60;plant d life 61;topic s;"
+        + "topic t;topic u;topic v;"
         + "bill a of a at 0 says s 1;bill b of b at 1 says t 2;bill c of c at 1 says u 3;bill d of d at 2 says v 4;grow 0-1;";
 
     private void willTerm() {
         s.of("T3", "WILL: the LAW of a TOPIC behind n YEARS.");
         HedgeRecord x = s.taken(FADING);
-        s.dueRow("behind 0", row(4, t -> x.will(t, 0)), 1, 2, 3, 4);
-        s.dueRow("behind 1", row(4, t -> x.will(t, 1)), 0, 2, 3, 4);
-        s.dueRow("behind 58", row(4, t -> x.will(t, 58)), 0, 2, 3, 4);
-        s.dueRow("behind 59", row(4, t -> x.will(t, 59)), 0, 0, 3, 4);
-        s.dueRow("behind 60", row(4, t -> x.will(t, 60)), 0, 0, 0, 4);
+        s.dueRow("behind 0", Checks.row(4, t -> x.will(t, 0)), 1, 2, 3, 4);
+        s.dueRow("behind 1", Checks.row(4, t -> x.will(t, 1)), 0, 2, 3, 4);
+        s.dueRow("behind 58", Checks.row(4, t -> x.will(t, 58)), 0, 2, 3, 4);
+        s.dueRow("behind 59", Checks.row(4, t -> x.will(t, 59)), 0, 0, 3, 4);
+        s.dueRow("behind 60", Checks.row(4, t -> x.will(t, 60)), 0, 0, 0, 4);
         x.year();
-        s.dueRow("behind 60 from a year later", row(4, t -> x.will(t, 60)), 0, 0, 0, 0);
-        HedgeRecord y = s.taken("plant p life 9;plant w life 1;topic t;bill a of p at 0 says t 5;bill b of w at 1 repeals a;grow 0-(stake=1);");
+        s.dueRow("behind 60 from a year later", Checks.row(4, t -> x.will(t, 60)), 0, 0, 0, 0);
+        HedgeRecord y = s.taken("plant p life 9;plant w life 1;topic t;bill a of p at 0 says t 5;bill b of w at 1 repeals a;"
+            + "grow 0-(stake=1);");
         s.due("repealed now", y.will(0, 0), 0);
         s.due("not any more behind a year", y.will(0, 1), 5);
     }
@@ -135,12 +127,14 @@ final class LookBounds {
     private void lapseTerm() {
         s.of("T3", "LAPSE: the fewest YEARS (60 at most) behind which it is not what it is now.");
         HedgeRecord x = s.taken(FADING);
-        s.dueRow("in 1, 59, 60 years, and not in 60", row(4, x::lapse), 1, 59, 60, -1);
+        s.dueRow("in 1, 59, 60 years, and not in 60", Checks.row(4, x::lapse), 1, 59, 60, -1);
         x.year();
-        s.dueRow("0 from now on, and a year less", row(4, x::lapse), -1, 58, 59, 60);
-        HedgeRecord y = s.taken("plant p life 9;plant w life 1;topic t;bill a of p at 0 says t 5;bill b of w at 1 repeals a;grow 0-(stake=1);");
+        s.dueRow("0 from now on, and a year less", Checks.row(4, x::lapse), -1, 58, 59, 60);
+        HedgeRecord y = s.taken("plant p life 9;plant w life 1;topic t;bill a of p at 0 says t 5;bill b of w at 1 repeals a;"
+            + "grow 0-(stake=1);");
         s.due("a law that comes", y.lapse(0), 1);
-        HedgeRecord z = s.taken("stakes 3;plant p life 2;plant q life 4;topic t;bill a of q at 0 says t 1;bill b of p at 1 says t 2;"
+        HedgeRecord z = s.taken("stakes 3;plant p life 2;plant q life 4;topic t;bill a of q at 0 says t 1;"
+            + "bill b of p at 1 says t 2;"
             + "bill c of p at 2 says t 1;grow 0-1-(stake=2);");
         s.due("the fewest, though it is as now again later", z.lapse(0), 1);
         s.due("as it is then", z.will(0, 1), 2);
@@ -165,7 +159,8 @@ final class LookBounds {
         s.due("it stands again", x.clashes(), 2);
         x.pull(1);
         s.due("one is dead", x.clashes(), 1);
-        HedgeRecord w = s.taken("plant p life 9;topic s;topic t;bill a of p at 0 says s 1;bill b of p at 0 says t 1 amends a;bill c of p at 0 says t 2;"
+        HedgeRecord w = s.taken("plant p life 9;topic s;topic t;bill a of p at 0 says s 1;bill b of p at 0 says t 1 amends a;"
+            + "bill c of p at 0 says t 2;"
             + "bill d of p at 0 says t 3 amends c;");
         s.due("one that amends the first, and one that does not; and one behind it", w.clashes(), 0);
         HedgeRecord y = s.taken("plant p life 9;topic t;bill a of p at 0;bill b of p at 0;bill c of p at 0 says t 0;");
@@ -177,33 +172,37 @@ final class LookBounds {
     private void weedTerm() {
         s.of("T3", "WEED: the fewest BILLS to pull up so that no two CLASH; of like ones the least set as bits.");
         HedgeRecord x = s.taken("plant p life 9;topic t;bill a of p at 0 says t 1;bill b of p at 0 says t 2;");
-        s.dueRow("one of two, the first", row(2, x::weed), 1, 0b01);
+        s.dueRow("one of two, the first", Checks.row(2, x::weed), 1, 0b01);
         x.lay(0, 0, 0, 1, -1);
-        s.dueRow("fewer, though a greater set", row(2, x::weed), 1, 0b10);
+        s.dueRow("fewer, though a greater set", Checks.row(2, x::weed), 1, 0b10);
         x.lay(0, 0, 0, 2, -1);
-        s.dueRow("two of four", row(2, x::weed), 2, 0b0101);
+        s.dueRow("two of four", Checks.row(2, x::weed), 2, 0b0101);
         x.pull(1);
-        s.dueRow("by what lives", row(2, x::weed), 1, 0b1000);
-        HedgeRecord y = s.taken("plant p life 9;topic t;bill a of p at 0 says t 1;bill b of p at 0 says t 2;bill c of p at 0 repeals b;");
-        s.dueRow("what is repealed clashes with none", row(2, y::weed), 0, 0);
+        s.dueRow("by what lives", Checks.row(2, x::weed), 1, 0b1000);
+        HedgeRecord y = s.taken("plant p life 9;topic t;bill a of p at 0 says t 1;bill b of p at 0 says t 2;"
+            + "bill c of p at 0 repeals b;");
+        s.dueRow("what is repealed clashes with none", Checks.row(2, y::weed), 0, 0);
         y.lay(0, 0, 0, 3, -1);
-        s.dueRow("one is enough", row(2, y::weed), 1, 0b0001);
-        HedgeRecord z = s.taken("plant p life 9;topic t;bill a of p at 0 says t 1;bill b of p at 0 says t 1;bill c of p at 0 says t 2 repeals a;"
+        s.dueRow("one is enough", Checks.row(2, y::weed), 1, 0b0001);
+        HedgeRecord z = s.taken("plant p life 9;topic t;bill a of p at 0 says t 1;bill b of p at 0 says t 1;"
+            + "bill c of p at 0 says t 2 repeals a;"
             + "bill d of p at 0 says t 1;");
-        s.dueRow("the repealing one stays or goes, whichever is fewer", row(2, z::weed), 1, 0b0100);
+        s.dueRow("the repealing one stays or goes, whichever is fewer", Checks.row(2, z::weed), 1, 0b0100);
         HedgeRecord w = s.taken("plant p life 9;topic s;topic t;");
         for (int i = 0; i < 12; i++) {
             w.lay(0, 0, i % 2, i - 5, -1);
         }
-        s.dueRow("ten of twelve", row(2, w::weed), 10, 0b001111111111);
-        HedgeRecord v = s.taken("plant p life 9;topic t;bill a of p at 0 says t 1;bill b of p at 0 says t 2 amends a;bill c of p at 0 says t 3;");
-        s.dueRow("what amends clashes with none", row(2, v::weed), 1, 0b001);
+        s.dueRow("ten of twelve", Checks.row(2, w::weed), 10, 0b001111111111);
+        HedgeRecord v = s.taken("plant p life 9;topic t;bill a of p at 0 says t 1;bill b of p at 0 says t 2 amends a;"
+            + "bill c of p at 0 says t 3;");
+        s.dueRow("what amends clashes with none", Checks.row(2, v::weed), 1, 0b001);
     }
 
     private void placesTerm() {
         s.of("T3", "PLACES: STAKES at which a BILL of a PLANT that says so much of a TOPIC, and amends nothing, could be laid so that the LAW of it "
             + "is that, all other LAWS as they are.");
-        HedgeRecord x = s.taken("stakes 12;plant p life 1;topic s;topic t;bill a of p at 5 says s 3;bill b of p at 8 says s 2 amends a;");
+        HedgeRecord x = s.taken("stakes 12;plant p life 1;topic s;topic t;bill a of p at 5 says s 3;"
+            + "bill b of p at 8 says s 2 amends a;");
         s.due("behind all others", x.places(0, 0, 7), 0b111100000000);
         s.due("what is law already: ahead of them, or behind", x.places(0, 0, 5), 0b111100011111);
         s.due("what is law when more is added to it: between", x.places(0, 0, 3), 0b111100000000);
@@ -218,7 +217,8 @@ final class LookBounds {
         s.due("0 more, and 3", y.places(0, 0, 3), 0b11);
         y.repeal(0, 0, 0);
         s.due("what does not stand is in no way", y.places(0, 0, 4), 0b11);
-        HedgeRecord z = s.taken("stakes 3;plant p life 1;topic s;topic t;bill a of p at 2 says s 3;bill b of p at 1 says t 4 amends a;");
+        HedgeRecord z = s.taken("stakes 3;plant p life 1;topic s;topic t;bill a of p at 2 says s 3;"
+            + "bill b of p at 1 says t 4 amends a;");
         s.due("ahead of what adds to it it is more", z.places(0, 1, 5), 0b110);
         s.due("0 more than what is added, ahead of it", z.places(0, 1, 0), 0b110);
         for (int stake = 0; stake < 3; stake++) {
@@ -231,7 +231,8 @@ final class LookBounds {
 
     private void gapsTerm() {
         s.of("T3", "GAPS: STAKES at which no BILL LIVES.");
-        HedgeRecord x = s.taken("stakes 12;plant p life 1;bill a of p at 0;bill b of p at 11;bill c of p at 5;bill d of p at 5 repeals a;");
+        HedgeRecord x = s.taken("stakes 12;plant p life 1;bill a of p at 0;bill b of p at 11;bill c of p at 5;"
+            + "bill d of p at 5 repeals a;");
         s.due("all but three", x.gaps(), 0b011111011110);
         x.pull(3);
         s.due("one of two is dead", x.gaps(), 0b011111011110);
@@ -258,13 +259,13 @@ final class LookBounds {
     private void closeTerm() {
         s.of("T3", "CLOSE for a width (1 .. 12): how few STAKES to fill so that none that wide is left.");
         HedgeRecord x = s.taken("stakes 12;");
-        s.dueRow("of twelve", row(12, w -> x.closes(w + 1)), 12, 6, 4, 3, 2, 2, 1, 1, 1, 1, 1, 1);
+        s.dueRow("of twelve", Checks.row(12, w -> x.closes(w + 1)), 12, 6, 4, 3, 2, 2, 1, 1, 1, 1, 1, 1);
         HedgeRecord y = s.taken("stakes 12;plant p life 1;bill a of p at 5;");
-        s.dueRow("of five and six", row(12, w -> y.closes(w + 1)), 11, 5, 3, 2, 2, 1, 0, 0, 0, 0, 0, 0);
+        s.dueRow("of five and six", Checks.row(12, w -> y.closes(w + 1)), 11, 5, 3, 2, 2, 1, 0, 0, 0, 0, 0, 0);
         HedgeRecord z = s.taken("stakes 2;plant p life 1;bill a of p at 0;bill b of p at 1;");
-        s.dueRow("of none", row(12, w -> z.closes(w + 1)), 0, 0, 0, 0, 0, 0, 0, 0, 0, 0, 0, 0);
+        s.dueRow("of none", Checks.row(12, w -> z.closes(w + 1)), 0, 0, 0, 0, 0, 0, 0, 0, 0, 0, 0, 0);
         HedgeRecord w = new HedgeRecord();
-        s.dueRow("of eight", row(12, i -> w.closes(i + 1)), 8, 4, 2, 2, 1, 1, 1, 1, 0, 0, 0, 0);
+        s.dueRow("of eight", Checks.row(12, i -> w.closes(i + 1)), 8, 4, 2, 2, 1, 1, 1, 1, 0, 0, 0, 0);
     }
 
     private void walkTerm() {
@@ -286,7 +287,8 @@ final class LookBounds {
     }
 
     /** Two that repeal, at stakes 1 and 2, each with two bills that would stand without it. */
-    private static final String REPEALS = "stakes 4;plant p life 9;plant w life 3;bill a of p at 0;bill b of p at 0 amends a;bill c of p at 3;"
+    private static final String REPEALS = "stakes 4;plant p life 9;plant w life 3;bill a of p at 0;bill b of p at 0 amends a;"
+        + "bill c of p at 3;"
         + "bill d of p at 3 amends c;bill e of w at 1 repeals a;bill f of w at 2 repeals c;";
 
     private void trimTerm() {
@@ -304,17 +306,20 @@ final class LookBounds {
         s.dueRow("by less, 2 years", lying(x), 1, 1);
         s.due("by 1, 3 years", x.plan(3, 1), 3);
         s.dueRow("by 1, 3 years", lying(x), 1, 1, 1);
-        HedgeRecord y = s.taken("stakes 3;plant p life 5;plant w life 20;bill a of w at 1;bill b of p at 0;bill c of p at 2;grow 0-(near>0)*9;");
+        HedgeRecord y = s.taken("stakes 3;plant p life 5;plant w life 20;bill a of w at 1;bill b of p at 0;bill c of p at 2;"
+            + "grow 0-(near>0)*9;");
         s.due("the trimming is ahead of the year", y.plan(1, 20), 2);
         s.dueRow("the trimming is ahead of the year", lying(y), 1);
         s.due("by less it dies first in the year", y.plan(1, 12), 2);
         s.dueRow("by less it dies first in the year", lying(y), 1);
         s.due("by too little", y.plan(1, 10), 1);
         s.dueRow("by too little", lying(y), -1);
-        HedgeRecord z = s.taken("stakes 12;plant p life 9;plant w life 1;bill a of p at 0;bill b of p at 0 amends a;bill c of w at 11 repeals a;");
+        HedgeRecord z = s.taken("stakes 12;plant p life 9;plant w life 1;bill a of p at 0;bill b of p at 0 amends a;"
+            + "bill c of w at 11 repeals a;");
         s.due("the last stake", z.plan(1, 99), 2);
         s.dueRow("the last stake", lying(z), 11);
-        HedgeRecord w = s.taken("stakes 12;plant p life 9;plant w life 1;bill a of p at 11;bill b of p at 11 amends a;bill c of w at 0 repeals a;");
+        HedgeRecord w = s.taken("stakes 12;plant p life 9;plant w life 1;bill a of p at 11;bill b of p at 11 amends a;"
+            + "bill c of w at 0 repeals a;");
         s.due("the first stake", w.plan(1, 1), 2);
         s.dueRow("the first stake", lying(w), 0);
     }
@@ -324,12 +329,14 @@ final class LookBounds {
         HedgeRecord x = s.taken("stakes 3;plant p life 9;bill a of p at 1;");
         for (int years = 1; years <= 3; years++) {
             s.due("nothing is gained", x.plan(years, 1), 1);
-            s.dueRow("nothing is gained", lying(x), years == 1 ? new int[] {-1} : years == 2 ? new int[] {-1, -1} : new int[] {-1, -1, -1});
+            s.dueRow("nothing is gained", lying(x), Checks.row(years, i -> -1));
         }
-        HedgeRecord y = s.taken("stakes 3;plant p life 9;plant w life 1;bill a of p at 2;bill b of p at 2 amends a;bill c of w at 0 repeals a;");
+        HedgeRecord y = s.taken("stakes 3;plant p life 9;plant w life 1;bill a of p at 2;bill b of p at 2 amends a;"
+            + "bill c of w at 0 repeals a;");
         s.due("once is enough, late", y.plan(3, 1), 2);
         s.dueRow("none ahead of stake 0", lying(y), -1, -1, 0);
-        HedgeRecord z = s.taken("stakes 3;plant p life 9;plant w life 2;bill a of p at 0;bill b of p at 0 amends a;bill c of p at 0 amends a;"
+        HedgeRecord z = s.taken("stakes 3;plant p life 9;plant w life 2;bill a of p at 0;bill b of p at 0 amends a;"
+            + "bill c of p at 0 amends a;"
             + "bill d of w at 2 repeals a;grow (stake=2)*2;");
         s.due("once, early, is less than twice, late", z.plan(3, 3), 3);
         s.dueRow("once, early, is less than twice, late", lying(z), 2, -1, -1);
@@ -350,19 +357,21 @@ final class LookBounds {
 
     private void joyTerm() {
         s.of("T3", "JOY of a PARTY: over what it wants, each weight times how far the LAW is from what is wanted, together, taken from 0.");
-        HedgeRecord x = s.taken("plant p life 9;topic s;topic t;topic u;topic v;party a;party b;party c;wants a s 9 by 9;wants a t -9 by 9;"
+        HedgeRecord x = s.taken("plant p life 9;topic s;topic t;topic u;topic v;party a;party b;party c;wants a s 9 by 9;"
+            + "wants a t -9 by 9;"
             + "wants b s 1 by 1;wants b v 0 by 9;");
-        s.dueRow("far above, far below, nothing wanted", row(3, x::joy), -162, -1, 0);
+        s.dueRow("far above, far below, nothing wanted", Checks.row(3, x::joy), -162, -1, 0);
         x.lay(0, 0, 0, -9, -1);
         x.lay(0, 0, 1, 9, -1);
-        s.dueRow("on the other side of 0", row(3, x::joy), -324, -10, 0);
+        s.dueRow("on the other side of 0", Checks.row(3, x::joy), -324, -10, 0);
         x.lay(0, 0, 0, 1, -1);
-        s.dueRow("just so", row(3, x::joy), -234, 0, 0);
+        s.dueRow("just so", Checks.row(3, x::joy), -234, 0, 0);
         for (int i = 3; i < 12; i++) {
             x.lay(7, 0, 3, 9, 0);
         }
         s.due("beyond what can be wanted", x.joy(1), -9 * 81);
-        HedgeRecord z = s.taken("stakes 2;plant p life 9;topic t;bill a of p at 0 says t 2;bill b of p at 1 says t 3 amends a;party a;wants a t 4 by 2;");
+        HedgeRecord z = s.taken("stakes 2;plant p life 9;topic t;bill a of p at 0 says t 2;bill b of p at 1 says t 3 amends a;"
+            + "party a;wants a t 4 by 2;");
         s.due("with what amends it", z.joy(0), -2);
         z.lay(1, 0, 0, -9, 0);
         s.due("with what amends it by less than 0", z.joy(0), -16);
@@ -370,8 +379,10 @@ final class LookBounds {
         s.due("without topics", y.joy(0), 0);
     }
 
-    private static final String PARTIES = "stakes 3;plant p life 5;topic s;topic t;bill a of p at 0 says s 3;bill b of p at 1 says s 5;"
-        + "bill c of p at 2 says t 4;party r;party g;party h;wants r s 3 by 1;wants g s 5 by 2;wants g t 0 by 1;wants h t 4 by 9;";
+    private static final String PARTIES = "stakes 3;plant p life 5;topic s;topic t;bill a of p at 0 says s 3;"
+        + "bill b of p at 1 says s 5;"
+        + "bill c of p at 2 says t 4;party r;party g;party h;wants r s 3 by 1;wants g s 5 by 2;wants g t 0 by 1;"
+        + "wants h t 4 by 9;";
 
     private void gameTerm() {
         s.of("T3", "GAME: PARTIES, one by one in order, each pull up one BILL that LIVES, or none, each so that its own JOY at last is most, all knowing that;");
@@ -383,14 +394,17 @@ final class LookBounds {
         s.due("each as it likes: none", x.game(), 0);
         s.dueRow("none", lying(x), -1, -1, -1);
         // The first would like 1; but the second takes away what is then left, so the first takes away nothing.
-        HedgeRecord y = s.taken("stakes 3;plant p life 5;topic t;bill a of p at 0 says t 1;bill b of p at 1 says t 6;bill c of p at 2 says t 3;"
+        HedgeRecord y = s.taken("stakes 3;plant p life 5;topic t;bill a of p at 0 says t 1;bill b of p at 1 says t 6;"
+            + "bill c of p at 2 says t 3;"
             + "party r;party g;wants r t 6 by 1;wants g t 3 by 1;");
         s.due("the first knows what the second does", y.game(), 0);
-        HedgeRecord z = s.taken("stakes 2;plant p life 5;topic t;bill a of p at 0 says t 5;bill b of p at 1 says t 9;party r;party g;"
+        HedgeRecord z = s.taken("stakes 2;plant p life 5;topic t;bill a of p at 0 says t 5;bill b of p at 1 says t 9;party r;"
+            + "party g;"
             + "wants r t 0 by 1;wants g t 5 by 1;");
         s.due("what the first pulls up lives no more for the second", z.game(), 1);
         s.dueRow("the second does it by itself", lying(z), -1, 1);
-        HedgeRecord w = s.taken("stakes 2;plant p life 5;topic t;bill a of p at 0 says t 5;bill b of p at 1 says t 9;party r;party g;"
+        HedgeRecord w = s.taken("stakes 2;plant p life 5;topic t;bill a of p at 0 says t 5;bill b of p at 1 says t 9;party r;"
+            + "party g;"
             + "wants r t 0 by 1;wants g t 0 by 1;");
         s.due("both are needed", w.game(), 2);
         s.dueRow("the first one pulls up the first bill", lying(w), 0, 1);
@@ -401,14 +415,16 @@ final class LookBounds {
 
     private void gameLikeOnes() {
         s.of("T3", "of like ones none, then the first BILL.");
-        HedgeRecord x = s.taken("stakes 2;plant p life 5;topic t;bill a of p at 0 says t 1;bill b of p at 1 says t 2;party r;wants r t 2 by 1;");
+        HedgeRecord x = s.taken("stakes 2;plant p life 5;topic t;bill a of p at 0 says t 1;bill b of p at 1 says t 2;party r;"
+            + "wants r t 2 by 1;");
         s.due("none is as good as the first bill", x.game(), 0);
         s.dueRow("none", lying(x), -1);
         HedgeRecord y = s.taken("stakes 3;plant p life 5;topic t;bill a of p at 0 says t 5;bill b of p at 1 says t 1 amends a;"
             + "bill c of p at 2 says t 1 amends a;party r;wants r t 6 by 1;");
         s.due("one of two", y.game(), 1);
         s.dueRow("the first of them", lying(y), 1);
-        HedgeRecord z = s.taken("stakes 3;plant p life 5;topic t;bill a of p at 0 says t 5;party r;party g;party h;wants r t 0 by 1;wants g t 0 by 1;"
+        HedgeRecord z = s.taken("stakes 3;plant p life 5;topic t;bill a of p at 0 says t 5;party r;party g;party h;"
+            + "wants r t 0 by 1;wants g t 0 by 1;"
             + "wants h t 0 by 1;");
         s.due("each leaves it to the next", z.game(), 1);
         s.dueRow("so the last one does it", lying(z), -1, -1, 0);
@@ -435,7 +451,8 @@ final class LookBounds {
         s.of("18", "WILL (n 0 .. 60); -1000 if one can't be.");
         HedgeRecord x = s.taken(FADING);
         s.dueRow("the first topic in no year, the last in 60", new int[] {x.will(0, 0), x.will(3, 60)}, 1, 4);
-        int[][] wrong = {{0, -1}, {0, 61}, {3, 61}, {-1, 0}, {4, 0}, {4, 60}, {-1, -1}, {0, FAR[0]}, {0, FAR[1]}, {FAR[0], 0}, {FAR[1], 0}};
+        int[][] wrong = {{0, -1}, {0, 61}, {3, 61}, {-1, 0}, {4, 0}, {4, 60}, {-1, -1}, {0, FAR[0]}, {0, FAR[1]},
+            {FAR[0], 0}, {FAR[1], 0}};
         for (int[] w : wrong) {
             s.due("will " + w[0] + " " + w[1], x.will(w[0], w[1]), -1000);
         }
@@ -460,11 +477,11 @@ final class LookBounds {
     private void dies() {
         s.of("20", "Behind how many YEARS (60 at most) a BILL does not LIVE any more (0: it does not now);");
         HedgeRecord x = s.taken(FADING);
-        s.dueRow("in 1, 59, 60", row(3, x::dies), 1, 59, 60);
+        s.dueRow("in 1, 59, 60", Checks.row(3, x::dies), 1, 59, 60);
         x.pull(3);
         s.due("now", x.dies(3), 0);
         x.year();
-        s.dueRow("a year less", row(4, x::dies), 0, 58, 59, 0);
+        s.dueRow("a year less", Checks.row(4, x::dies), 0, 58, 59, 0);
         HedgeRecord y = s.taken("plant p life 1;topic t;");
         for (int i = 0; i < 12; i++) {
             y.lay(0, 0, 0, 0, -1);
@@ -526,7 +543,7 @@ final class LookBounds {
         s.dueRow("without bills", new int[] {x.weed(-1), x.weed(0), x.weed(1), x.weed(2)}, -1, 0, 0, -1);
         for (int i = 0; i < 12; i++) {
             x.lay(0, 0, 0, i - 3, -1);
-            s.dueRow("of " + (i + 1), row(2, x::weed), i, (1 << i) - 1);
+            s.dueRow("of " + (i + 1), Checks.row(2, x::weed), i, (1 << i) - 1);
         }
         int[] wrong = {-1, 2, FAR[0], FAR[1]};
         for (int what : wrong) {
@@ -536,21 +553,22 @@ final class LookBounds {
         for (int i = 0; i < 12; i++) {
             y.lay(0, 0, 0, i < 6 ? 1 : 2, -1);
         }
-        s.dueRow("half", row(2, y::weed), 6, 0b000000111111);
+        s.dueRow("half", Checks.row(2, y::weed), 6, 0b000000111111);
         y.pull(0);
-        s.dueRow("less than half", row(2, y::weed), 5, 0b000000111110);
+        s.dueRow("less than half", Checks.row(2, y::weed), 5, 0b000000111110);
         y.undo();
         y.pull(11);
-        s.dueRow("the other half", row(2, y::weed), 5, 0b011111000000);
+        s.dueRow("the other half", Checks.row(2, y::weed), 5, 0b011111000000);
         rich.idle("weed of another what", z -> z.weed(2), -1);
     }
 
     private void places() {
         s.of("24", "PLACES (says -9 .. 9), as bits; NONE if there are 12 BILLS, or one can't be.");
-        HedgeRecord x = s.taken("stakes 12;plant o life 1;plant p life 1;plant q life 1;plant r life 1;topic s;topic t;topic u;topic v;");
+        HedgeRecord x = s.taken("stakes 12;plant o life 1;plant p life 1;plant q life 1;plant r life 1;topic s;topic t;"
+            + "topic u;topic v;");
         s.dueRow("the ends of all", new int[] {x.places(0, 0, -9), x.places(3, 3, 9)}, 4095, 4095);
-        int[][] wrong = {{-1, 0, 0}, {4, 0, 0}, {0, -1, 0}, {0, 4, 0}, {0, 0, -10}, {0, 0, 10}, {FAR[0], 0, 0}, {FAR[1], 0, 0}, {0, FAR[0], 0},
-            {0, FAR[1], 0}, {0, 0, FAR[0]}, {0, 0, FAR[1]}};
+        int[][] wrong = {{-1, 0, 0}, {4, 0, 0}, {0, -1, 0}, {0, 4, 0}, {0, 0, -10}, {0, 0, 10}, {FAR[0], 0, 0},
+            {FAR[1], 0, 0}, {0, FAR[0], 0}, {0, FAR[1], 0}, {0, 0, FAR[0]}, {0, 0, FAR[1]}};
         for (int[] w : wrong) {
             s.due("places " + w[0] + " " + w[1] + " " + w[2], x.places(w[0], w[1], w[2]), -1);
         }
@@ -574,7 +592,8 @@ final class LookBounds {
 
     private void gaps() {
         s.of("25", "GAPS, as bits.");
-        s.dueRow("all of 2, 8, 12", new int[] {s.taken("stakes 2;").gaps(), new HedgeRecord().gaps(), s.taken("stakes 12;").gaps()}, 3, 255, 4095);
+        s.dueRow("all of 2, 8, 12", new int[] {s.taken("stakes 2;").gaps(), new HedgeRecord().gaps(),
+            s.taken("stakes 12;").gaps()}, 3, 255, 4095);
         HedgeRecord x = s.taken("stakes 12;plant p life 1;topic t;");
         for (int i = 0; i < 12; i++) {
             x.lay(i, 0, 0, 0, -1);
@@ -584,7 +603,8 @@ final class LookBounds {
 
     private void widest() {
         s.of("26", "WIDEST.");
-        s.dueRow("all of 2, 8, 12", new int[] {s.taken("stakes 2;").widest(), new HedgeRecord().widest(), s.taken("stakes 12;").widest()}, 2, 8, 12);
+        s.dueRow("all of 2, 8, 12", new int[] {s.taken("stakes 2;").widest(), new HedgeRecord().widest(),
+            s.taken("stakes 12;").widest()}, 2, 8, 12);
         HedgeRecord x = s.taken("stakes 12;plant p life 1;topic t;");
         int[] wanted = {11, 10, 9, 8, 7, 6, 5, 4, 3, 2, 1, 0};
         for (int i = 0; i < 12; i++) {
@@ -602,7 +622,7 @@ final class LookBounds {
         }
         s.dueRow("1 and 12", new int[] {x.closes(1), x.closes(12)}, 12, 1);
         HedgeRecord y = s.taken("stakes 2;");
-        s.dueRow("of two stakes", row(14, y::closes), -1, 2, 1, 0, 0, 0, 0, 0, 0, 0, 0, 0, 0, -1);
+        s.dueRow("of two stakes", Checks.row(14, y::closes), -1, 2, 1, 0, 0, 0, 0, 0, 0, 0, 0, 0, 0, -1);
         rich.idle("closes 13", z -> z.closes(13), -1);
     }
 
@@ -636,9 +656,12 @@ final class LookBounds {
 
     private void plan() {
         s.of("29", "TRIM (by 1 .. 99): how many STAND at last;");
-        HedgeRecord x = s.taken("stakes 3;plant p life 99;plant w life 1;bill a of p at 0;bill b of p at 0 amends a;bill c of w at 2 repeals a;");
-        s.dueRow("by 1 and 99, of 1 and 3 years", new int[] {x.plan(1, 1), x.plan(3, 1), x.plan(1, 99), x.plan(3, 99)}, 2, 2, 2, 2);
-        HedgeRecord y = s.taken("stakes 3;plant p life 99;bill a of p at 0;bill b of p at 0 amends a;bill c of p at 2 repeals a;grow 0-(stake=0)*49;");
+        HedgeRecord x = s.taken("stakes 3;plant p life 99;plant w life 1;bill a of p at 0;bill b of p at 0 amends a;"
+            + "bill c of w at 2 repeals a;");
+        s.dueRow("by 1 and 99, of 1 and 3 years", new int[] {x.plan(1, 1), x.plan(3, 1), x.plan(1, 99), x.plan(3, 99)},
+            2, 2, 2, 2);
+        HedgeRecord y = s.taken("stakes 3;plant p life 99;bill a of p at 0;bill b of p at 0 amends a;"
+            + "bill c of p at 2 repeals a;grow 0-(stake=0)*49;");
         s.dueRow("by 98 and by 99", new int[] {y.plan(1, 98), y.plan(1, 99)}, 1, 2);
         s.due("in three years the others die", y.plan(3, 99), 1);
         HedgeRecord z = s.taken("plant p life 1;topic t;");
@@ -650,7 +673,8 @@ final class LookBounds {
 
     private void planRefused() {
         s.of("29", "NONE if one can't be.");
-        int[][] wrong = {{0, 1}, {4, 1}, {-1, 1}, {FAR[0], 1}, {FAR[1], 1}, {1, 0}, {1, 100}, {1, -1}, {1, FAR[0]}, {1, FAR[1]}, {0, 0}, {4, 100}};
+        int[][] wrong = {{0, 1}, {4, 1}, {-1, 1}, {FAR[0], 1}, {FAR[1], 1}, {1, 0}, {1, 100}, {1, -1}, {1, FAR[0]},
+            {1, FAR[1]}, {0, 0}, {4, 100}};
         for (int[] w : wrong) {
             HedgeRecord x = new HedgeRecord();
             HedgeRecord y = new HedgeRecord();
@@ -700,8 +724,10 @@ final class LookBounds {
         s.due("the second", s.taken(three + "wants b t 1 by 1;").saddest(), 1);
         s.due("the last", s.taken(three + "wants c t 1 by 1;").saddest(), 2);
         s.due("of two like ones the first", s.taken(three + "wants c t 1 by 2;wants b t -2 by 1;").saddest(), 1);
-        s.due("of three like ones the first", s.taken(three + "wants c t 1 by 2;wants b t -2 by 1;wants a t 2 by 1;").saddest(), 0);
-        s.due("the least, not the first below 0", s.taken(three + "wants a t 1 by 1;wants b t 1 by 2;wants c t 1 by 3;").saddest(), 2);
+        s.due("of three like ones the first", s.taken(three + "wants c t 1 by 2;wants b t -2 by 1;"
+            + "wants a t 2 by 1;").saddest(), 0);
+        s.due("the least, not the first below 0", s.taken(three + "wants a t 1 by 1;wants b t 1 by 2;"
+            + "wants c t 1 by 3;").saddest(), 2);
         s.due("one alone", s.taken("party a;").saddest(), 0);
     }
 
@@ -721,7 +747,8 @@ final class LookBounds {
         s.due("one party", z.game(), 1);
         s.dueRow("one party", lying(z), 0);
         s.due("it is not done", z.bill(0, 0), 5);
-        HedgeRecord w = s.taken("plant p life 5;topic s;topic t;topic u;bill a of p at 0 says s 5;bill b of p at 0 says t 5;bill c of p at 0 says u 5;"
+        HedgeRecord w = s.taken("plant p life 5;topic s;topic t;topic u;bill a of p at 0 says s 5;bill b of p at 0 says t 5;"
+            + "bill c of p at 0 says u 5;"
             + "party r;party g;party h;wants r u 0 by 1;wants g t 0 by 1;wants h s 0 by 1;");
         s.due("three", w.game(), 3);
         s.dueRow("each one of its own", lying(w), 2, 1, 0);

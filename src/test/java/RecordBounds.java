@@ -1,5 +1,3 @@
-import java.util.function.IntUnaryOperator;
-
 /** The bounds of what stands and what the law is (==== 2 of the terms, its first part) and of the promises 6 to 10. */
 final class RecordBounds {
     private final Sentences s;
@@ -23,14 +21,6 @@ final class RecordBounds {
         standsBits();
         falls();
         fallsRefused();
-    }
-
-    private static int[] row(int n, IntUnaryOperator of) {
-        int[] found = new int[n];
-        for (int i = 0; i < n; i++) {
-            found[i] = of.applyAsInt(i);
-        }
-        return found;
     }
 
     private void lives() {
@@ -63,14 +53,14 @@ final class RecordBounds {
         s.of("T2", "It is REPEALED if a BILL that LIVES repeals it.");
         HedgeRecord x = s.taken("plant p life 1;bill a of p at 0;bill b of p at 1 repeals a;bill c of p at 2 repeals b;"
             + "bill d of p at 3 amends a repeals a;");
-        s.dueRow("repealed", row(4, b -> x.bill(b, 9)), 1, 1, 0, 0);
+        s.dueRow("repealed", Checks.row(4, b -> x.bill(b, 9)), 1, 1, 0, 0);
         x.pull(1);
         s.due("by another one that lives, though it does not stand", x.bill(0, 9), 1);
         x.pull(3);
         s.due("by none that lives", x.bill(0, 9), 0);
         s.due("one that does not live can be repealed", x.bill(1, 9), 1);
         x.pull(2);
-        s.dueRow("none any more", row(4, b -> x.bill(b, 9)), 0, 0, 0, 0);
+        s.dueRow("none any more", Checks.row(4, b -> x.bill(b, 9)), 0, 0, 0, 0);
         HedgeRecord y = s.taken("plant p life 1;bill a of p at 0;bill b of p at 1 repeals a;bill c of p at 2 repeals b;");
         s.due("by one that is repealed itself, but lives", y.bill(0, 9), 1);
         HedgeRecord z = s.taken("plant p life 1;");
@@ -79,7 +69,8 @@ final class RecordBounds {
 
     private void stands() {
         s.of("T2", "It STANDS if it LIVES, is not REPEALED, and what it amends STANDS, if it amends one.");
-        String text = "plant p life 5;bill a of p at 7;bill b of p at 6 amends a;bill c of p at 5 amends b;bill d of p at 4 amends c;"
+        String text = "plant p life 5;bill a of p at 7;bill b of p at 6 amends a;bill c of p at 5 amends b;"
+            + "bill d of p at 4 amends c;"
             + "bill e of p at 3 amends d;bill f of p at 2 amends e;bill g of p at 1 amends f;bill h of p at 0 amends g;";
         s.due("a chain of eight", s.taken(text).stands(), 255);
         for (int b = 0; b < 8; b++) {
@@ -102,16 +93,19 @@ final class RecordBounds {
     }
 
     private void reading() {
-        s.of("T2", "READING goes by STAKES, at one STAKE by BILLS' numbers: the LAW of a TOPIC is 0 at first; one that STANDS and says "
+        s.of("T2", "READING goes by STAKES, at one STAKE by BILLS' numbers: the LAW of a TOPIC is 0 at first;"
+            + " one that STANDS and says "
             + "something of it makes it so much, or, if it amends another one, so much more (no bounds).");
-        HedgeRecord x = s.taken("stakes 12;plant p life 5;topic s;topic t;topic u;topic v;bill a of p at 11 says t 1;bill b of p at 0 says t 2;"
-            + "bill c of p at 11 says u 3;bill d of p at 11 says u 4;bill e of p at 0 says v 5 amends a;bill f of p at 0 says s 0;");
-        s.dueRow("laws", row(4, x::law), 0, 1, 4, 5);
+        HedgeRecord x = s.taken("stakes 12;plant p life 5;topic s;topic t;topic u;topic v;bill a of p at 11 says t 1;"
+            + "bill b of p at 0 says t 2;"
+            + "bill c of p at 11 says u 3;bill d of p at 11 says u 4;bill e of p at 0 says v 5 amends a;"
+            + "bill f of p at 0 says s 0;");
+        s.dueRow("laws", Checks.row(4, x::law), 0, 1, 4, 5);
         x.pull(0);
-        s.dueRow("without the first", row(4, x::law), 0, 2, 4, 0);
+        s.dueRow("without the first", Checks.row(4, x::law), 0, 2, 4, 0);
         x.pull(3);
         x.pull(1);
-        s.dueRow("without others", row(4, x::law), 0, 0, 3, 0);
+        s.dueRow("without others", Checks.row(4, x::law), 0, 0, 3, 0);
         HedgeRecord y = s.taken("stakes 3;plant p life 5;topic t;bill a of p at 1 says t 5;bill b of p at 0 says t 3 amends a;"
             + "bill c of p at 2 says t -7 amends b;");
         s.due("what amends ahead of it is lost, behind it counts", y.law(0), -2);
@@ -137,36 +131,37 @@ final class RecordBounds {
     private void bill() {
         s.of("6", "Of a BILL what 0: its LIFE, 1: AGE, 2: STAKE, 3: PLANT, 4: TOPIC (NONE: it says nothing), 5: what it says (0), "
             + "6: which it amends, 7: repeals (NONE of both), 8: 1 if it STANDS, else 0, 9: 1 if it is REPEALED, else 0;");
-        HedgeRecord x = s.taken("stakes 12;plant o life 1;plant p life 2;plant q life 3;plant r life 99;topic s;topic t;topic u;topic v;"
+        HedgeRecord x = s.taken("stakes 12;plant o life 1;plant p life 2;plant q life 3;plant r life 99;topic s;topic t;"
+            + "topic u;topic v;"
             + "bill a of r at 11 says v -9;bill b of o at 0 says s 9 amends a;bill c of p at 5 amends a repeals b;");
         x.year();
-        s.dueRow("the greatest numbers", row(10, w -> x.bill(0, w)), 99, 1, 11, 3, 3, -9, -1, -1, 1, 0);
-        s.dueRow("the least numbers", row(10, w -> x.bill(1, w)), 1, 1, 0, 0, 0, 9, 0, -1, 0, 1);
-        s.dueRow("says nothing", row(10, w -> x.bill(2, w)), 2, 1, 5, 1, -1, 0, 0, 1, 1, 0);
+        s.dueRow("the greatest numbers", Checks.row(10, w -> x.bill(0, w)), 99, 1, 11, 3, 3, -9, -1, -1, 1, 0);
+        s.dueRow("the least numbers", Checks.row(10, w -> x.bill(1, w)), 1, 1, 0, 0, 0, 9, 0, -1, 0, 1);
+        s.dueRow("says nothing", Checks.row(10, w -> x.bill(2, w)), 2, 1, 5, 1, -1, 0, 0, 1, 1, 0);
         for (int i = 3; i < 12; i++) {
             x.lay(10, 2, 2, 3, i - 1);
         }
-        s.dueRow("the twelfth", row(10, w -> x.bill(11, w)), 3, 0, 10, 2, 2, 3, 10, -1, 1, 0);
+        s.dueRow("the twelfth", Checks.row(10, w -> x.bill(11, w)), 3, 0, 10, 2, 2, 3, 10, -1, 1, 0);
         x.pull(11);
-        s.dueRow("dead", row(10, w -> x.bill(11, w)), 0, 0, 10, 2, 2, 3, 10, -1, 0, 0);
+        s.dueRow("dead", Checks.row(10, w -> x.bill(11, w)), 0, 0, 10, 2, 2, 3, 10, -1, 0, 0);
         x.undo();
         x.pull(2);
-        s.dueRow("not repealed any more", row(10, w -> x.bill(1, w)), 1, 1, 0, 0, 0, 9, 0, -1, 1, 0);
+        s.dueRow("not repealed any more", Checks.row(10, w -> x.bill(1, w)), 1, 1, 0, 0, 0, 9, 0, -1, 1, 0);
         s.due("amends what fell", x.bill(11, 8), 0);
     }
 
     private void billOfNothing() {
         s.of("6", "4: TOPIC (NONE: it says nothing), 5: what it says (0), 6: which it amends, 7: repeals (NONE of both)");
         HedgeRecord x = s.taken("plant p life 2;topic t;bill a of p at 0;bill b of p at 0 says t -0;");
-        s.dueRow("nothing", row(4, w -> x.bill(0, w + 4)), -1, 0, -1, -1);
-        s.dueRow("0 is something", row(4, w -> x.bill(1, w + 4)), 0, 0, -1, -1);
+        s.dueRow("nothing", Checks.row(4, w -> x.bill(0, w + 4)), -1, 0, -1, -1);
+        s.dueRow("0 is something", Checks.row(4, w -> x.bill(1, w + 4)), 0, 0, -1, -1);
         x.repeal(0, 0, 1);
-        s.dueRow("a repeal says nothing", row(4, w -> x.bill(2, w + 4)), -1, 0, -1, 1);
+        s.dueRow("a repeal says nothing", Checks.row(4, w -> x.bill(2, w + 4)), -1, 0, -1, 1);
         x.lay(0, 0, 0, 0, -1);
-        s.dueRow("laid", row(4, w -> x.bill(3, w + 4)), 0, 0, -1, -1);
+        s.dueRow("laid", Checks.row(4, w -> x.bill(3, w + 4)), 0, 0, -1, -1);
         x.undo();
         x.repeal(0, 0, 0);
-        s.dueRow("a repeal where another was undone", row(4, w -> x.bill(3, w + 4)), -1, 0, -1, 0);
+        s.dueRow("a repeal where another was undone", Checks.row(4, w -> x.bill(3, w + 4)), -1, 0, -1, 0);
     }
 
     private void billRefused() {
@@ -197,7 +192,8 @@ final class RecordBounds {
 
     private void stake() {
         s.of("7", "BILLS at a STAKE that LIVE (what 0), STAND (1), as bits;");
-        HedgeRecord x = s.taken("stakes 12;plant p life 2;topic t;bill a of p at 0;bill b of p at 0 repeals a;bill c of p at 11;");
+        HedgeRecord x = s.taken("stakes 12;plant p life 2;topic t;bill a of p at 0;bill b of p at 0 repeals a;"
+            + "bill c of p at 11;");
         for (int i = 3; i < 12; i++) {
             x.lay(11, 0, 0, 1, i == 11 ? 0 : -1);
         }
@@ -230,8 +226,9 @@ final class RecordBounds {
 
     private void law() {
         s.of("8", "LAW;");
-        HedgeRecord x = s.taken("plant p life 2;topic s;topic t;topic u;topic v;bill a of p at 0 says s 1;bill b of p at 7 says v -9;");
-        s.dueRow("of the first, the last, and those of which nothing is said", row(4, x::law), 1, 0, 0, -9);
+        HedgeRecord x = s.taken("plant p life 2;topic s;topic t;topic u;topic v;bill a of p at 0 says s 1;"
+            + "bill b of p at 7 says v -9;");
+        s.dueRow("of the first, the last, and those of which nothing is said", Checks.row(4, x::law), 1, 0, 0, -9);
     }
 
     private void lawRefused() {
@@ -266,7 +263,8 @@ final class RecordBounds {
 
     private void falls() {
         s.of("10", "BILLS that do not STAND any more if one is pulled up, but do now, it too, as bits;");
-        HedgeRecord x = s.taken("plant p life 2;bill a of p at 0;bill b of p at 0 amends a;bill c of p at 0 amends b;bill d of p at 0 repeals c;"
+        HedgeRecord x = s.taken("plant p life 2;bill a of p at 0;bill b of p at 0 amends a;bill c of p at 0 amends b;"
+            + "bill d of p at 0 repeals c;"
             + "bill e of p at 0 amends a;bill f of p at 0 repeals e;bill g of p at 0 amends b repeals f;");
         s.due("it and what amends it and stands", x.falls(0), 0b1000011);
         s.due("it and one that amends it", x.falls(1), 0b1000010);

@@ -1,5 +1,4 @@
 import java.util.List;
-import java.util.function.IntUnaryOperator;
 
 /** The bounds of rings and orders (==== 4 of the terms), of the promises 34 to 42, and the constants. */
 final class RingBounds {
@@ -38,14 +37,6 @@ final class RingBounds {
         backRefused();
         about();
         aboutRefused();
-    }
-
-    private static int[] row(int n, IntUnaryOperator of) {
-        int[] found = new int[n];
-        for (int i = 0; i < n; i++) {
-            found[i] = of.applyAsInt(i);
-        }
-        return found;
     }
 
     /** A hedge with so many bills, none of which amends or repeals another. */
@@ -110,7 +101,8 @@ final class RingBounds {
         x.later(5);
         x.untell(0);
         x.later(5);
-        int[][] wanted = {{FAR[0], 2}, {-1, 2}, {0, 2}, {4, 2}, {5, 1}, {6, 1}, {9, 1}, {10, 2}, {11, 2}, {15, 2}, {16, 2}, {FAR[1], 2}};
+        int[][] wanted = {{FAR[0], 2}, {-1, 2}, {0, 2}, {4, 2}, {5, 1}, {6, 1}, {9, 1}, {10, 2}, {11, 2}, {15, 2}, {16, 2},
+            {FAR[1], 2}};
         for (int[] w : wanted) {
             s.due("as known at " + w[0], x.orders(w[0]), w[1]);
         }
@@ -143,12 +135,13 @@ final class RingBounds {
         for (int n = 0; n <= 8; n++) {
             s.due("of " + n, plain(n).orders(0), wanted[n]);
         }
-        HedgeRecord x = s.taken("plant p life 5;topic t;bill a of p at 0;bill b of p at 0 amends a;bill c of p at 0 repeals a;bill d of p at 0 amends b repeals c;"
+        HedgeRecord x = s.taken("plant p life 5;topic t;bill a of p at 0;bill b of p at 0 amends a;bill c of p at 0 repeals a;"
+            + "bill d of p at 0 amends b repeals c;"
             + "bill e of p at 0 amends d;");
         s.due("two", x.orders(0), 2);
         x.ring(1, 2, true);
         s.due("one", x.orders(0), 1);
-        s.dueRow("places", row(5, b -> x.sure(b, 0)), 0, 1, 2, 3, 4);
+        s.dueRow("places", Checks.row(5, b -> x.sure(b, 0)), 0, 1, 2, 3, 4);
         x.ring(4, 0, true);
         s.due("none", x.orders(0), 0);
         x.untell(1);
@@ -171,22 +164,23 @@ final class RingBounds {
     private void sureTerm() {
         s.of("T4", "SURE of a BILL: its place, if it is the same in all.");
         HedgeRecord x = plain(5);
-        s.dueRow("none", row(5, b -> x.sure(b, 0)), -2, -2, -2, -2, -2);
+        s.dueRow("none", Checks.row(5, b -> x.sure(b, 0)), -2, -2, -2, -2, -2);
         for (int b = 0; b < 4; b++) {
             x.ring(4, b, true);
         }
-        s.dueRow("the last was the first", row(5, b -> x.sure(b, 0)), -2, -2, -2, -2, 0);
+        s.dueRow("the last was the first", Checks.row(5, b -> x.sure(b, 0)), -2, -2, -2, -2, 0);
         for (int b = 1; b < 4; b++) {
             x.ring(0, b, false);
         }
-        s.dueRow("the first was the last", row(5, b -> x.sure(b, 0)), 4, -2, -2, -2, 0);
+        s.dueRow("the first was the last", Checks.row(5, b -> x.sure(b, 0)), 4, -2, -2, -2, 0);
         x.ring(1, 2, false);
         x.ring(2, 3, false);
-        s.dueRow("all", row(5, b -> x.sure(b, 0)), 4, 3, 2, 1, 0);
+        s.dueRow("all", Checks.row(5, b -> x.sure(b, 0)), 4, 3, 2, 1, 0);
     }
 
     private void askTerm() {
-        s.of("T4", "ASK: the BILL of which to see the place would leave the fewest of these at the most; of like ones the first.");
+        s.of("T4", "ASK: the BILL of which to see the place would leave the fewest of these at the most;"
+            + " of like ones the first.");
         HedgeRecord x = plain(5);
         s.dueRow("all alike", new int[] {x.ask(0, 0), x.ask(1, 0)}, 0, 24);
         x.ring(0, 1, true);
@@ -224,7 +218,8 @@ final class RingBounds {
 
     private void ringRefused() {
         s.of("34", "NONE, doing nothing, if one can't be (both alike, too), or there are 30.");
-        int[][] wrong = {{0, 0}, {4, 4}, {-1, 0}, {0, -1}, {-1, -1}, {5, 0}, {0, 5}, {5, 5}, {12, 0}, {0, 12}, {FAR[0], 0}, {0, FAR[0]}, {FAR[1], 0}, {0, FAR[1]}};
+        int[][] wrong = {{0, 0}, {4, 4}, {-1, 0}, {0, -1}, {-1, -1}, {5, 0}, {0, 5}, {5, 5}, {12, 0}, {0, 12}, {FAR[0], 0},
+            {0, FAR[0]}, {FAR[1], 0}, {0, FAR[1]}};
         for (int[] w : wrong) {
             rich.idle("ring " + w[0] + " " + w[1] + " ahead", x -> x.ring(w[0], w[1], true), -1);
             rich.idle("ring " + w[0] + " " + w[1] + " behind", x -> x.ring(w[0], w[1], false), -1);
@@ -264,7 +259,7 @@ final class RingBounds {
         s.due("the first", x.untell(0), true);
         x.later(2);
         s.due("the last", x.untell(1), true);
-        s.dueRow("as known at 0 .. 7", row(8, x::orders), 3, 3, 1, 1, 3, 3, 6, 6);
+        s.dueRow("as known at 0 .. 7", Checks.row(8, x::orders), 3, 3, 1, 1, 3, 3, 6, 6);
         HedgeRecord y = plain(2);
         for (int i = 0; i < 30; i++) {
             y.ring(0, 1, true);
@@ -287,7 +282,7 @@ final class RingBounds {
         s.due("once", x.untell(0), true);
         x.later(3);
         s.due("twice", x.untell(0), false);
-        s.dueRow("it stays untold at the first time", row(7, x::orders), 1, 1, 1, 2, 2, 2, 2);
+        s.dueRow("it stays untold at the first time", Checks.row(7, x::orders), 1, 1, 1, 2, 2, 2, 2);
         HedgeRecord y = plain(2);
         for (int i = 0; i < 30; i++) {
             y.ring(0, 1, true);
@@ -336,7 +331,8 @@ final class RingBounds {
     private void orders() {
         s.of("37", "ORDERS: how many (1 without BILLS).");
         s.due("without bills", new HedgeRecord().orders(0), 1);
-        s.dueRow("without bills, at any time", new int[] {new HedgeRecord().orders(FAR[0]), new HedgeRecord().orders(FAR[1])}, 1, 1);
+        s.dueRow("without bills, at any time", new int[] {new HedgeRecord().orders(FAR[0]), new HedgeRecord().orders(FAR[1])},
+            1, 1);
         s.due("one bill", plain(1).orders(0), 1);
         s.due("five bills", plain(5).orders(0), 120);
         HedgeRecord x = plain(2);
@@ -355,8 +351,8 @@ final class RingBounds {
         for (int b = 0; b < 4; b++) {
             y.ring(b, b + 1, true);
         }
-        s.dueRow("places from 0 to 4", row(5, b -> y.sure(b, 1)), 0, 1, 2, 3, 4);
-        s.dueRow("not known before", row(5, b -> y.sure(b, 0)), -2, -2, -2, -2, -2);
+        s.dueRow("places from 0 to 4", Checks.row(5, b -> y.sure(b, 1)), 0, 1, 2, 3, 4);
+        s.dueRow("not known before", Checks.row(5, b -> y.sure(b, 0)), -2, -2, -2, -2, -2);
         rich.idle("sure", z -> z.sure(0, 3) & 0, 0);
     }
 
@@ -487,6 +483,18 @@ final class RingBounds {
         s.due("one act is kept behind many", x.about(8), 1);
         x.undo();
         s.due("it is undone to what was kept", x.about(5), 1);
+        HedgeRecord w = plain(0);
+        w.lay(5, 0, 0, 1, -1);
+        w.lay(3, 0, 0, 2, -1);
+        w.image(0);
+        w.undo();
+        w.lay(7, 0, 0, 4, -1);
+        w.image(1);
+        s.due("read by the stakes that are now", w.law(0), 4);
+        w.back(0);
+        s.due("read by the stakes that were kept", w.law(0), 1);
+        w.back(1);
+        s.due("read by the stakes that were kept in the other box", w.law(0), 4);
         HedgeRecord y = new HedgeRecord();
         Twins.rich(y);
         s.dueRow("rings, the time, the tape, what lies there stay as they are", abouts(y), 2, 5, 25, 2);
@@ -513,19 +521,20 @@ final class RingBounds {
             rich.idle("back " + box, x -> x.back(box), -1);
         }
         HedgeRecord x = new HedgeRecord();
-        s.dueRow("of a new object", row(3, x::back), -1, -1, -1);
+        s.dueRow("of a new object", Checks.row(3, x::back), -1, -1, -1);
         x.image(1);
-        s.dueRow("one kept", row(3, x::back), -1, 0, -1);
+        s.dueRow("one kept", Checks.row(3, x::back), -1, 0, -1);
         x.hedge();
-        s.dueRow("behind a new hedge", row(3, x::back), -1, -1, -1);
+        s.dueRow("behind a new hedge", Checks.row(3, x::back), -1, -1, -1);
     }
 
     private void about() {
         s.of("42", "What 0: BILLS, 1: STAKES, 2: PLANTS, 3: TOPICS, 4: PARTIES, 5: the year, 6: the SEED, 7: all LIFE, 8: ACTS that can be undone, "
             + "9: redone, 10: RINGS, 11: the TIME, 12: bytes on the TAPE, 13: units, 14: how many lie there.");
         HedgeRecord x = new HedgeRecord();
-        s.dueRow("the least", row(15, x::about), 0, 8, 0, 0, 0, 0, 0, 0, 0, 0, 0, 0, 0, 0, 0);
-        Checks.read(x, "stakes 12;plant a life 99;plant b life 99;plant c life 99;plant d life 99;topic a;topic b;topic c;topic d;party a;party b;party c;"
+        s.dueRow("the least", Checks.row(15, x::about), 0, 8, 0, 0, 0, 0, 0, 0, 0, 0, 0, 0, 0, 0, 0);
+        Checks.read(x, "stakes 12;plant a life 99;plant b life 99;plant c life 99;plant d life 99;topic a;topic b;topic c;"
+            + "topic d;party a;party b;party c;"
             + "grow " + "0+".repeat(29) + "0;draw 744;");
         for (int i = 0; i < 12; i++) {
             x.lay(i, i % 4, i % 4, 9, -1);
@@ -541,11 +550,11 @@ final class RingBounds {
         }
         x.year();
         x.plan(3, 1);
-        s.dueRow("the most", row(15, x::about), 12, 12, 4, 4, 3, 1, 999, 12 * 99, 13, 0, 30, 100000, 1600, 30, 3);
+        s.dueRow("the most", Checks.row(15, x::about), 12, 12, 4, 4, 3, 1, 999, 12 * 99, 13, 0, 30, 100000, 1600, 30, 3);
         for (int i = 0; i < 13; i++) {
             x.undo();
         }
-        s.dueRow("all undone", row(15, x::about), 0, 12, 4, 4, 3, 0, 744, 0, 0, 13, 30, 100000, 1600, 30, 3);
+        s.dueRow("all undone", Checks.row(15, x::about), 0, 12, 4, 4, 3, 0, 744, 0, 0, 13, 30, 100000, 1600, 30, 3);
         for (int i = 0; i < 60; i++) {
             x.year();
         }

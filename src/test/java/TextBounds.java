@@ -55,10 +55,6 @@ final class TextBounds {
         faultOther();
     }
 
-    private static String times(String part, int n) {
-        return part.repeat(n);
-    }
-
     private void calls512() {
         s.of("W", "An object is used for at most 512 calls after it has been made; what later calls answer is free.");
         HedgeRecord x = new HedgeRecord();
@@ -74,11 +70,11 @@ final class TextBounds {
         s.due("no line", none.hedge(), 0);
         s.due("no line: stakes", none.about(1), 8);
         s.due("empty at first, as a text of no bytes: topics", none.about(3), 0);
-        s.due("1,600 bytes, the last counts", s.taken(times(" ", 1592) + "topic t;").about(3), 1);
-        s.refused(2, times(" ", 1592) + "topic tt^");
-        s.refused(1, times(" ", 1599) + "^?");
+        s.due("1,600 bytes, the last counts", s.taken(Checks.times(" ", 1592) + "topic t;").about(3), 1);
+        s.refused(2, Checks.times(" ", 1592) + "topic tt^");
+        s.refused(1, Checks.times(" ", 1599) + "^?");
         HedgeRecord x = new HedgeRecord();
-        Checks.tape(x, (times(" ", 1593) + "topic t").getBytes());
+        Checks.tape(x, (Checks.times(" ", 1593) + "topic t").getBytes());
         s.due("byte 1,601 can't come", x.feed(0x3b202020, 0, 0, 0, 0), -1);
         s.due("so the line has no end", x.hedge(), -1);
         s.due("which is behind byte 1,600", x.fault(1), 1600);
@@ -97,7 +93,7 @@ final class TextBounds {
                 most.append("wants ").append(c).append(" ").append(t).append(" 1 by 1;");
             }
         }
-        most.append("grow ").append(times("1+", 29)).append("1;frost 100 of 99;draw 999;");
+        most.append("grow ").append(Checks.times("1+", 29)).append("1;frost 100 of 99;draw 999;");
         s.due("all that can be told in one text: units", s.taken(most.toString()).about(13), 30);
     }
 
@@ -122,7 +118,8 @@ final class TextBounds {
 
     private void lines() {
         s.of("T1", "line = stakes N ; | plant NAME life N [hardy] ; | topic NAME ; | bill NAME of NAME at N [says NAME V] "
-            + "[amends NAME] [repeals NAME] ; | party NAME ; | wants NAME NAME V by N ; | grow e ; | frost N of N ; | draw N ;. V = [-] N.");
+            + "[amends NAME] [repeals NAME] ; | party NAME ; | wants NAME NAME V by N ; | grow e ; | frost N of N ; | draw N ;"
+            + ". V = [-] N.");
         eachToken("", "stakes 5 ;");
         eachToken("", "plant q life 7 ;");
         eachToken("", "plant q life 7 hardy ;");
@@ -173,13 +170,17 @@ final class TextBounds {
     private void formulas() {
         s.of("T1", "e = both {or both}. both = one {and one}. one = not one | sum [(< | > | =) sum]. sum = term {(+ | -) term}. "
             + "term = unit {(* | / | %) unit}. unit = N | life | age | stake | near | year | ( e ).");
-        for (String e : ("0;9999;life;age;stake;near;year;(1);not 1;not not 1;1 or 2;1 or 2 or 3;1 and 2;1 and 2 and 3;1 and 2 or 3 and 4;"
-            + "not 1 or not 2;not 1 and not 2;1<2;1>2;1=2;not 1<2;1<2 and 3>4 or 5=6;1+2;1-2;1+2-3+4;1*2;1/2;1%2;1*2/3%4;1+2*3<4-5/6;"
+        for (String e : ("0;9999;life;age;stake;near;year;(1);not 1;not not 1;1 or 2;1 or 2 or 3;1 and 2;1 and 2 and 3;"
+            + "1 and 2 or 3 and 4;"
+            + "not 1 or not 2;not 1 and not 2;1<2;1>2;1=2;not 1<2;1<2 and 3>4 or 5=6;1+2;1-2;1+2-3+4;1*2;1/2;1%2;1*2/3%4;"
+            + "1+2*3<4-5/6;"
             + "(1<2)<3;1<(2<3);(not 1)+1;1+(not 1);1*(2 or 3)").split(";")) {
             s.taken("grow " + e + ";");
         }
-        for (String e : ("^;^);^or 1;^and 1;^<1;^=1;^>1;^+1;^-1;^*1;^/1;^%1;1 or ^;1 and ^;not ^;1<^;1+^;1-^;1*^;1/^;1%^;(^;(1^;(^);1^);1 ^1;1 ^life;"
-            + "1 ^not 1;1 ^(1);1+^not 1;1<^not 1;1*^not 1;1<2^<3;1=2^=3;1>2^<3;1 or ^or 1;1 and ^or 1;1+^+1;1-^-1;1*^-1;not ^and 1;not 1 ^not 1;"
+        for (String e : ("^;^);^or 1;^and 1;^<1;^=1;^>1;^+1;^-1;^*1;^/1;^%1;1 or ^;1 and ^;not ^;1<^;1+^;1-^;1*^;1/^;1%^;(^;"
+            + "(1^;(^);1^);1 ^1;1 ^life;"
+            + "1 ^not 1;1 ^(1);1+^not 1;1<^not 1;1*^not 1;1<2^<3;1=2^=3;1>2^<3;1 or ^or 1;1 and ^or 1;1+^+1;1-^-1;1*^-1;"
+            + "not ^and 1;not 1 ^not 1;"
             + "^hardy;^stakes;^p;^years;1 ^by 2").split(";")) {
             s.refused(2, "grow " + e + (e.endsWith("^") ? ";" : ""));
         }
@@ -199,7 +200,7 @@ final class TextBounds {
         s.refused(1, "topic t^_;");
         s.due("1 and 8 letters", s.taken("topic t;topic abcdefgh;topic zzzzzzzz;").about(3), 3);
         s.refused(1, "topic ^abcdefghi;");
-        s.refused(1, "topic ^abcdefgh" + times("i", 100) + ";");
+        s.refused(1, "topic ^abcdefgh" + Checks.times("i", 100) + ";");
         s.refused(1, "^plantplan p life 1;");
         s.due("the eighth letter counts", s.taken("topic abcdefgh;topic abcdefgi;topic bbcdefgh;").about(3), 3);
     }
@@ -241,7 +242,8 @@ final class TextBounds {
 
     private void blanks() {
         s.of("T1", "blanks (32, 10) part them or not");
-        s.due("none where they need not be", s.taken("stakes3;plant p life5;topic t;bill b of p at2 says t-3;grow(1)+2;").bill(0, 5), -3);
+        s.due("none where they need not be", s.taken("stakes3;plant p life5;topic t;bill b of p at2 says t-3;"
+            + "grow(1)+2;").bill(0, 5), -3);
         s.due("many", s.taken("\n \nstakes \n 3\n;\n\n").about(1), 3);
         s.due("between any two tokens", s.taken("grow ( 1 ) + 2 * ( life - 1 ) ;").about(13), 6);
         s.due("alone", s.taken(" ").about(0), 0);
@@ -295,8 +297,8 @@ final class TextBounds {
         behindTheEnd("draw 55;", 6);
         behindTheEnd("topic tt;", 7);
         behindTheEnd("draw 5 ;", 6);
-        s.refused(2, times(" ", 1594) + "draw 5^");
-        s.refused(2, times(" ", 1592) + "topic tt^");
+        s.refused(2, Checks.times(" ", 1594) + "draw 5^");
+        s.refused(2, Checks.times(" ", 1592) + "topic tt^");
     }
 
     /** Cut off behind so many bytes, the text ends there, whatever was behind it. */
@@ -324,7 +326,8 @@ final class TextBounds {
             s.refused(2, BASE + "wants g ^" + word + " 1 by 1;");
         }
         for (String word : "hedge line name e both one sum term unit v n lives stands yearly plants a".split(" ")) {
-            s.due(word + " is a name", s.taken("plant " + word + " life 1;topic " + word + ";party " + word + ";bill " + word + " of " + word
+            s.due(word + " is a name", s.taken("plant " + word + " life 1;topic " + word + ";party " + word + ";bill " + word
+                + " of " + word
                 + " at 0 says " + word + " 1;wants " + word + " " + word + " 1 by 1;").about(0), 1);
         }
     }
@@ -339,7 +342,8 @@ final class TextBounds {
             s.refused(4, "stakes ^" + number + ";");
         }
         s.refused(2, "stakes 5;^stakes 5;");
-        for (String line : new String[] {"plant q life 1;", "topic u;", BASE + "bill b of p at 0;", "party h;", BASE + "wants g t 1 by 1;",
+        for (String line : new String[] {"plant q life 1;", "topic u;", BASE + "bill b of p at 0;", "party h;", BASE
+            + "wants g t 1 by 1;",
             "grow 1;", "frost 1 of 1;", "draw 1;"}) {
             s.refused(2, line + "^stakes 5;");
             s.taken("stakes 5;" + line);
@@ -447,7 +451,8 @@ final class TextBounds {
 
     private void numbered() {
         s.of("T1", "numbered as told, each sort by itself");
-        HedgeRecord x = s.taken("topic z;plant z life 1;party z;topic y;plant y life 2;bill z of y at 3 says y 1;bill y of z at 4 says z 2;"
+        HedgeRecord x = s.taken("topic z;plant z life 1;party z;topic y;plant y life 2;bill z of y at 3 says y 1;"
+            + "bill y of z at 4 says z 2;"
             + "party y;wants y z 9 by 1;");
         s.dueRow("plants", new int[] {x.bill(0, 3), x.bill(1, 3)}, 1, 0);
         s.dueRow("topics", new int[] {x.bill(0, 4), x.bill(1, 4)}, 1, 0);
@@ -522,24 +527,27 @@ final class TextBounds {
 
     private void units() {
         s.of("T1", "60 units in all, 30 in one e");
-        s.due("30", s.taken("grow " + times("1+", 29) + "1;").about(13), 30);
-        s.refused(2, "grow " + times("1+", 30) + "^1;");
-        s.refused(2, "grow " + times("life and ", 30) + "^life;");
+        s.due("30", s.taken("grow " + Checks.times("1+", 29) + "1;").about(13), 30);
+        s.refused(2, "grow " + Checks.times("1+", 30) + "^1;");
+        s.refused(2, "grow " + Checks.times("life and ", 30) + "^life;");
         // A unit ( e ) is one, and those within it are in the e around it, too; so 60 in all are never come to.
-        s.due("30, one of them around others", s.taken("grow (" + times("1+", 28) + "1);").about(13), 30);
-        s.refused(2, "grow (" + times("1+", 29) + "^1);");
-        s.refused(2, "grow " + times("1+", 30) + "^(1);");
-        s.due("30 by twos", s.taken("grow " + times("(1)+", 14) + "(1);").about(13), 30);
-        s.refused(2, "grow " + times("(1)+", 15) + "^(1);");
-        s.due("30 again in another text", again("grow " + times("1+", 29) + "1;", "grow " + times("1+", 29) + "1;").about(13), 30);
-        HedgeRecord x = s.taken("plant p life 5;bill b of p at 0;grow " + times("1+", 29) + "1;");
+        s.due("30, one of them around others", s.taken("grow (" + Checks.times("1+", 28) + "1);").about(13), 30);
+        s.refused(2, "grow (" + Checks.times("1+", 29) + "^1);");
+        s.refused(2, "grow " + Checks.times("1+", 30) + "^(1);");
+        s.due("30 by twos", s.taken("grow " + Checks.times("(1)+", 14) + "(1);").about(13), 30);
+        s.refused(2, "grow " + Checks.times("(1)+", 15) + "^(1);");
+        s.due("30 again in another text", again("grow " + Checks.times("1+", 29) + "1;", "grow " + Checks.times("1+", 29)
+            + "1;").about(13), 30);
+        HedgeRecord x = s.taken("plant p life 5;bill b of p at 0;grow " + Checks.times("1+", 29) + "1;");
         x.year();
         s.due("all 30 count", x.bill(0, 0), 35);
-        String nots = times("not ", 7) + "life";
-        HedgeRecord y = s.taken("plant p life 5;bill b of p at 0;grow " + times(nots + " or ", 29) + times("not ", 6) + "life;");
+        String nots = Checks.times("not ", 7) + "life";
+        HedgeRecord y = s.taken("plant p life 5;bill b of p at 0;grow " + Checks.times(nots + " or ", 29)
+            + Checks.times("not ", 6) + "life;");
         y.year();
         s.due("as many nots as can be, the last one makes it so", y.bill(0, 0), 6);
-        HedgeRecord z = s.taken("plant p life 50;bill b of p at 0;grow 1-(2-(3-(4-(5-(6-(7-(8+" + times("1*", 13) + "1)))))));");
+        HedgeRecord z = s.taken("plant p life 50;bill b of p at 0;grow 1-(2-(3-(4-(5-(6-(7-(8+" + Checks.times("1*", 13)
+            + "1)))))));");
         z.year();
         s.due("as many kept as can be", z.bill(0, 0), 45);
     }
@@ -547,8 +555,8 @@ final class TextBounds {
     private void within() {
         s.of("T1", "(a unit ( e ), or a one behind not, within 6 others at most)");
         for (int nots = 0; nots <= 7; nots++) {
-            String head = times("not ", nots) + times("(", 7 - nots);
-            String tail = times(")", 7 - nots);
+            String head = Checks.times("not ", nots) + Checks.times("(", 7 - nots);
+            String tail = Checks.times(")", 7 - nots);
             s.taken("grow " + head + "life" + tail + ";");
             s.refused(2, "grow " + head + "^(life)" + tail + ";");
             s.refused(2, "grow " + head + "^not life" + tail + ";");
@@ -571,7 +579,7 @@ final class TextBounds {
         s.refused(2, "topic^");
         s.refused(2, "topic t^");
         s.refused(2, "topic t \n ^");
-        s.refused(2, times(" ", 1595) + "topic^");
+        s.refused(2, Checks.times(" ", 1595) + "topic^");
         s.refused(3, "topic t;topic ^t;stakes 1;?");
         s.refused(2, "topic t;^stakes 1;?");
         s.refused(4, "stakes ^1;?");
@@ -594,8 +602,8 @@ final class TextBounds {
         s.refused(1, "stakes ^1a;");
         s.refused(1, "draw ^99999;");
         s.refused(1, "topic abcdefgh;topic ^abcdefghh;");
-        s.refused(1, "grow " + times("1+", 30) + "^12345;");
-        s.refused(1, "grow " + times("(", 7) + "^12345");
+        s.refused(1, "grow " + Checks.times("1+", 30) + "^12345;");
+        s.refused(1, "grow " + Checks.times("(", 7) + "^12345");
         s.refused(1, BASE + "bill b of ^pppppppppp at 0;");
         // A line too many is told ahead of its name, which is told already.
         s.refused(2, "party a;party b;party c;^party a;");
@@ -634,9 +642,9 @@ final class TextBounds {
 
     private void tooManyUnits() {
         s.of("T1", "a unit too many, what is within 7 others: at its first TOKEN, or the not);");
-        s.refused(2, "grow " + times("1+", 30) + " ^1;");
-        s.refused(2, "grow " + times("1+", 30) + "^(1+1);");
-        s.refused(2, "grow " + times("1 and ", 30) + "not ^1;");
+        s.refused(2, "grow " + Checks.times("1+", 30) + " ^1;");
+        s.refused(2, "grow " + Checks.times("1+", 30) + "^(1+1);");
+        s.refused(2, "grow " + Checks.times("1 and ", 30) + "not ^1;");
         s.refused(2, "grow (((((((1+^(2)))))))));");
         s.refused(2, "grow (((((((1 and ^not 2)))))));");
         s.refused(2, "grow (((((((^not (2))))))));");
@@ -698,11 +706,7 @@ final class TextBounds {
     private void newObject() {
         s.of("1", "An empty HEDGE (8 STAKES).");
         HedgeRecord x = new HedgeRecord();
-        int[] about = new int[17];
-        for (int what = -1; what <= 15; what++) {
-            about[what + 1] = x.about(what);
-        }
-        s.dueRow("about", about, -1, 0, 8, 0, 0, 0, 0, 0, 0, 0, 0, 0, 0, 0, 0, 0, -1);
+        s.dueRow("about", Checks.row(17, what -> x.about(what - 1)), -1, 0, 8, 0, 0, 0, 0, 0, 0, 0, 0, 0, 0, 0, 0, 0, -1);
         s.due("the last stake", x.stake(7, 0), 0);
         s.due("behind the last stake", x.stake(8, 0), -1);
         s.dueRow("none of each", new int[] {x.bill(0, 0), x.law(0), x.joy(0), x.lies(0), x.saddest()}, -100, -1000, 1, -2, -1);
@@ -742,14 +746,14 @@ final class TextBounds {
         s.due("1,601", x.feed(-1, -1, -1, -1, -1), -1);
         s.due("still 1,581", x.about(12), 1581);
         s.due("nothing came", x.hedge(), 0);
-        Checks.tape(x, times(" ", 1580).getBytes());
+        Checks.tape(x, Checks.times(" ", 1580).getBytes());
         s.due("just 1,600", x.feed(0x20202020, 0x20202020, 0x20202020, 0x20202020, 0x2020203f), 1600);
         x.hedge();
         s.due("the last of them", x.fault(1), 1599);
         new Twins(s, y -> {
             Twins.rich(y);
             y.end(0);
-            Checks.tape(y, times(" ", 1599).getBytes());
+            Checks.tape(y, Checks.times(" ", 1599).getBytes());
         }).idle("feed of 19 bytes too many", y -> y.feed(-1, -1, -1, -1, -1), -1);
     }
 
@@ -767,7 +771,7 @@ final class TextBounds {
         s.due("0 of 17", x.end(0), 0);
         s.due("none", x.hedge(), 0);
         s.due("no topics", x.about(3), 0);
-        Checks.tape(x, times(" ", 1600).getBytes());
+        Checks.tape(x, Checks.times(" ", 1600).getBytes());
         s.due("1,600 of 1,600", x.end(1600), 1600);
     }
 
@@ -817,7 +821,8 @@ final class TextBounds {
         HedgeRecord z = s.taken("plant p life 3;bill a of p at 0;");
         z.year();
         Checks.read(z, "plant p life 3;bill a of p at 0;");
-        s.dueRow("the same text again: life, age, year, seed", new int[] {z.bill(0, 0), z.bill(0, 1), z.about(5), z.about(6)}, 3, 0, 0, 0);
+        s.dueRow("the same text again: life, age, year, seed", new int[] {z.bill(0, 0), z.bill(0, 1), z.about(5), z.about(6)},
+            3, 0, 0, 0);
     }
 
     private void hedgeCounts() {
@@ -830,7 +835,8 @@ final class TextBounds {
 
     private void hedgeFault() {
         s.of("4", "NONE: a FAULT (all stays).");
-        for (String text : new String[] {"?", "stakes 2;plant z life 1 hardy;topic z;party z;wants z z 1 by 1;bill z of z at 0 says z 1;grow 9;frost 100 of 99;draw 1;?",
+        for (String text : new String[] {"?", "stakes 2;plant z life 1 hardy;topic z;party z;wants z z 1 by 1;"
+            + "bill z of z at 0 says z 1;grow 9;frost 100 of 99;draw 1;?",
             "stakes 13", "topic t;topic t"}) {
             HedgeRecord x = new HedgeRecord();
             HedgeRecord y = new HedgeRecord();
@@ -869,9 +875,9 @@ final class TextBounds {
         x.end(0);
         x.hedge();
         s.dueRow("none", new int[] {x.fault(0), x.fault(1)}, 0, -1);
-        Checks.read(x, times(" ", 1600));
+        Checks.read(x, Checks.times(" ", 1600));
         s.dueRow("none of 1,600", new int[] {x.fault(0), x.fault(1)}, 0, -1);
-        Checks.read(x, times(" ", 1595) + "topic");
+        Checks.read(x, Checks.times(" ", 1595) + "topic");
         s.dueRow("the farthest place", new int[] {x.fault(0), x.fault(1)}, 2, 1600);
     }
 
